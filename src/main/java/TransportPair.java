@@ -479,6 +479,15 @@ public final class TransportPair {
             return bits(size, cut || pos >= end ? 0 : bytes[pos] & 255);
         }
 
+        /** The data read last as just one number, or -1. */
+        long onlyNumber() {
+            if (dataSize < 1 || 1 << ((bytes[dataAt] & 255) >> 6) != dataSize) {
+                return -1;
+            }
+            pos = dataAt;
+            return number();
+        }
+
         void data(long size) {
             if (cut || size > end - pos) {
                 cut = true;
@@ -703,6 +712,7 @@ public final class TransportPair {
 
         private final int[] words = new int[64];
         private final int[] sums = new int[8];
+        private final int[] turned = new int[8];
         private final byte[] inner = new byte[160];
         private final byte[] outer = new byte[96];
         private final byte[] info = new byte[64];
@@ -733,44 +743,26 @@ public final class TransportPair {
                         + (Integer.rotateRight(x, 7) ^ Integer.rotateRight(x, 18) ^ x >>> 3)
                         + (Integer.rotateRight(y, 17) ^ Integer.rotateRight(y, 19) ^ y >>> 10);
                 }
-                addChunk();
+                System.arraycopy(sums, 0, turned, 0, 8);
+                for (int t = 0; t < 64; t++) {
+                    int a = turned[0];
+                    int e = turned[4];
+                    int p = turned[7] + CUBES[t] + words[t]
+                        + (Integer.rotateRight(e, 6) ^ Integer.rotateRight(e, 11) ^ Integer.rotateRight(e, 25))
+                        + (e & turned[5] ^ ~e & turned[6]);
+                    int q = (Integer.rotateRight(a, 2) ^ Integer.rotateRight(a, 13) ^ Integer.rotateRight(a, 22))
+                        + (a & turned[1] ^ a & turned[2] ^ turned[1] & turned[2]);
+                    System.arraycopy(turned, 0, turned, 1, 7);
+                    turned[4] += p;
+                    turned[0] = p + q;
+                }
+                for (int i = 0; i < 8; i++) {
+                    sums[i] += turned[i];
+                }
             }
             for (int i = 0; i < 32; i++) {
                 to[at + i] = (byte) (sums[i / 4] >>> 24 - 8 * (i % 4));
             }
-        }
-
-        private void addChunk() {
-            int a = sums[0];
-            int b = sums[1];
-            int c = sums[2];
-            int d = sums[3];
-            int e = sums[4];
-            int f = sums[5];
-            int g = sums[6];
-            int h = sums[7];
-            for (int t = 0; t < 64; t++) {
-                int p = h + (Integer.rotateRight(e, 6) ^ Integer.rotateRight(e, 11) ^ Integer.rotateRight(e, 25))
-                    + (e & f ^ ~e & g) + CUBES[t] + words[t];
-                int q = (Integer.rotateRight(a, 2) ^ Integer.rotateRight(a, 13) ^ Integer.rotateRight(a, 22))
-                    + (a & b ^ a & c ^ b & c);
-                h = g;
-                g = f;
-                f = e;
-                e = d + p;
-                d = c;
-                c = b;
-                b = a;
-                a = p + q;
-            }
-            sums[0] += a;
-            sums[1] += b;
-            sums[2] += c;
-            sums[3] += d;
-            sums[4] += e;
-            sums[5] += f;
-            sums[6] += g;
-            sums[7] += h;
         }
 
         /** The MAC under a key of at most 64 bytes (none here is longer) of at most 96 bytes. */
@@ -1457,6 +1449,11 @@ public final class TransportPair {
         /** An acknowledgement in a space, its ranges the greatest first: whether it is right. */
         boolean acknowledge(int s, long delay, long[] low, long[] high, int count) {
             Space space = spaces[s];
+            acknowledgedCount = 0;
+            lostCount = 0;
+            if (space.discarded) {
+                return true;
+            }
             if (count < 1 || high[0] >= space.sent) {
                 return false;
             }
@@ -1484,8 +1481,6 @@ public final class TransportPair {
         private void findNew(int s, long[] low, long[] high, int count) {
             Space space = spaces[s];
             foundIn = s;
-            acknowledgedCount = 0;
-            lostCount = 0;
             int range = count - 1;
             for (int n = space.firstOut; n < space.sent; n++) {
                 while (range >= 0 && high[range] < n) {
@@ -1734,6 +1729,10 @@ public final class TransportPair {
             return state == OPEN || state == FINISHED;
         }
 
+        boolean hasUnsent() {
+            return (state == OPEN || state == FINISHED) && written > sent;
+        }
+
         void put(byte[] source, int at, int size) {
             bytes = widened(bytes, written + size);
             marks = widened(marks, written + size);
@@ -1958,18 +1957,19 @@ public final class TransportPair {
             return id % 2 == side;
         }
 
-        /** The parameter that grants the bytes of a stream, as the one who gets them has it. */
-        private static int grantOf(int id, boolean byReceiver) {
-            return wayOf(id) == 1 ? 7 : byReceiver ? 5 : 6;
+        /** The own parameter that grants the bytes of a stream. */
+        private int grantOf(int id) {
+            return wayOf(id) == 1 ? 7 : isMine(id) ? 5 : 6;
         }
 
         private void make(int id) {
-            boolean own = isMine(id);
-            if (own || wayOf(id) == 0) {
-                sendings[id] = new Sending(limits[grantOf(id, !own)]);
+            boolean both = id / 2 % 2 == 0;
+            boolean own = id % 2 == side;
+            if (own || both) {
+                sendings[id] = new Sending(limits[!both ? 7 : own ? 6 : 5]);
             }
-            if (!own || wayOf(id) == 0) {
-                receivings[id] = new Receiving(set[grantOf(id, own)]);
+            if (!own || both) {
+                receivings[id] = new Receiving(set[!both ? 7 : own ? 5 : 6]);
             }
             top = Math.max(top, id + 1);
         }
@@ -2053,7 +2053,7 @@ public final class TransportPair {
             receiving.updateState();
             growData();
             if (receiving.state == Receiving.OPEN) {
-                growGrant(receiving, set[grantOf(id, isMine(id))]);
+                growGrant(receiving, set[grantOf(id)]);
             }
             checkOver(id);
             return size;
@@ -2097,25 +2097,20 @@ public final class TransportPair {
             }
         }
 
-        /** Takes a frame: its error, or 0. */
-        int take(Reader frame) {
+        /** Takes a frame that is of no stream. */
+        void takeOfAll(Reader frame) {
             asleep = false;
-            switch (frame.kind) {
-                case Reader.MAX_DATA:
-                    limits[4] = Math.max(limits[4], frame.a);
-                    return 0;
-                case Reader.MAX_STREAMS: case Reader.MAX_STREAMS + 1:
-                    int count = 8 + frame.kind - Reader.MAX_STREAMS;
-                    limits[count] = Math.max(limits[count], Math.min(frame.a, MOST_COUNT));
-                    return 0;
-                case Reader.DATA_BLOCKED: case Reader.STREAMS_BLOCKED: case Reader.STREAMS_BLOCKED + 1:
-                    return 0;
-                default:
-                    return takeOfStream(frame);
+            if (frame.kind == Reader.MAX_DATA) {
+                limits[4] = Math.max(limits[4], frame.a);
+            } else if (frame.kind == Reader.MAX_STREAMS || frame.kind == Reader.MAX_STREAMS + 1) {
+                int count = 8 + frame.kind - Reader.MAX_STREAMS;
+                limits[count] = Math.max(limits[count], Math.min(frame.a, MOST_COUNT));
             }
         }
 
-        private int takeOfStream(Reader frame) {
+        /** Takes a frame of a stream: its error, or 0. */
+        int take(Reader frame) {
+            asleep = false;
             boolean aboutSending = frame.kind == Reader.STOP || frame.kind == Reader.MAX_STREAM_DATA;
             boolean own = frame.a % 2 == side;
             int way = (int) (frame.a / 2 % 2);
@@ -2160,7 +2155,7 @@ public final class TransportPair {
             Receiving receiving = receivings[id];
             int size = receiving == null ? -1 : receiving.size;
             int highest = receiving == null ? 0 : receiving.highest;
-            int grant = receiving == null ? set[grantOf(id, isMine(id))] : receiving.grant;
+            int grant = receiving == null ? set[grantOf(id)] : receiving.grant;
             boolean isEnd = frame.kind == Reader.RESET || frame.c == 1;
             long to = frame.kind == Reader.RESET ? frame.c : frame.b + frame.dataSize;
             if (size >= 0 && (to > size || isEnd && to != size) || isEnd && to < highest) {
@@ -2230,16 +2225,17 @@ public final class TransportPair {
             if (asleep) {
                 return 0;
             }
-            int size = fillOrder(to, at, room);
-            if (size == 0) {
-                size = fillGrant(to, at, room);
-            }
-            if (size == 0) {
-                size = fillBlocked(to, at, room);
-            }
-            if (size == 0) {
-                size = fillBytes(to, at, room);
-            }
+            int size = fillReset(to, at, room);
+            size = size > 0 ? size : fillStop(to, at, room);
+            size = size > 0 ? size : fillMax(4, Reader.MAX_DATA, to, at, room);
+            size = size > 0 ? size : fillStreamMax(to, at, room);
+            size = size > 0 ? size : fillMax(8, Reader.MAX_STREAMS, to, at, room);
+            size = size > 0 ? size : fillMax(9, Reader.MAX_STREAMS + 1, to, at, room);
+            size = size > 0 ? size : fillBlocked(4, Reader.DATA_BLOCKED, to, at, room);
+            size = size > 0 ? size : fillStreamBlocked(to, at, room);
+            size = size > 0 ? size : fillBlocked(8, Reader.STREAMS_BLOCKED, to, at, room);
+            size = size > 0 ? size : fillBlocked(9, Reader.STREAMS_BLOCKED + 1, to, at, room);
+            size = size > 0 ? size : fillBytes(to, at, room);
             asleep = size == 0 && room >= WIDE;
             return size;
         }
@@ -2269,7 +2265,7 @@ public final class TransportPair {
             return size;
         }
 
-        private int fillOrder(byte[] to, int at, int room) {
+        private int fillReset(byte[] to, int at, int room) {
             for (int id = 0; id < top; id++) {
                 Sending sending = sendings[id];
                 if (sending != null && sending.state == Sending.RESET && sending.resetDue) {
@@ -2284,6 +2280,10 @@ public final class TransportPair {
                     }
                 }
             }
+            return 0;
+        }
+
+        private int fillStop(byte[] to, int at, int room) {
             for (int id = 0; id < top; id++) {
                 Receiving receiving = receivings[id];
                 if (receiving != null && receiving.isLive() && receiving.stopDue) {
@@ -2300,27 +2300,7 @@ public final class TransportPair {
             return 0;
         }
 
-        private int fillGrant(byte[] to, int at, int room) {
-            int size = fillGrantOf(4, Reader.MAX_DATA, to, at, room);
-            for (int id = 0; id < top && size == 0; id++) {
-                Receiving receiving = receivings[id];
-                if (receiving != null && receiving.state == Receiving.OPEN && receiving.telling) {
-                    parts[0] = id;
-                    parts[1] = receiving.grant;
-                    size = putParts(to, at, room, Reader.MAX_STREAM_DATA, 2);
-                    if (size > 0) {
-                        receiving.telling = false;
-                        describe(Reader.MAX_STREAM_DATA, id, receiving.grant);
-                    }
-                }
-            }
-            for (int way = 0; way < 2 && size == 0; way++) {
-                size = fillGrantOf(8 + way, Reader.MAX_STREAMS + way, to, at, room);
-            }
-            return size;
-        }
-
-        private int fillGrantOf(int grant, int kind, byte[] to, int at, int room) {
+        private int fillMax(int grant, int kind, byte[] to, int at, int room) {
             parts[0] = granted[grant];
             int size = telling[grant] ? putParts(to, at, room, kind, 1) : 0;
             if (size > 0) {
@@ -2330,47 +2310,64 @@ public final class TransportPair {
             return size;
         }
 
-        private static boolean hasUnsent(Sending sending) {
-            return sending != null && sending.isLive() && sending.written > sending.sent;
-        }
-
-        private int fillBlocked(byte[] to, int at, int room) {
-            boolean unsent = false;
-            for (int id = 0; id < top && !unsent; id++) {
-                unsent = hasUnsent(sendings[id]);
-            }
-            int size = 0;
-            if (unsent && sentAll >= limits[4]) {
-                size = fillBlockedOf(4, Reader.DATA_BLOCKED, to, at, room);
-            }
-            for (int id = 0; id < top && unsent && size == 0; id++) {
-                Sending sending = sendings[id];
-                if (hasUnsent(sending) && sending.sent == sending.limit && sending.blockedAt != sending.limit) {
+        private int fillStreamMax(byte[] to, int at, int room) {
+            for (int id = 0; id < top; id++) {
+                Receiving receiving = receivings[id];
+                if (receiving != null && receiving.state == Receiving.OPEN && receiving.telling) {
                     parts[0] = id;
-                    parts[1] = sending.limit;
-                    size = putParts(to, at, room, Reader.STREAM_DATA_BLOCKED, 2);
+                    parts[1] = receiving.grant;
+                    int size = putParts(to, at, room, Reader.MAX_STREAM_DATA, 2);
                     if (size > 0) {
-                        sending.blockedAt = sending.limit;
-                        describe(Reader.STREAM_DATA_BLOCKED, id, sending.sent);
+                        receiving.telling = false;
+                        describe(Reader.MAX_STREAM_DATA, id, receiving.grant);
+                        return size;
                     }
                 }
             }
-            for (int way = 0; way < 2 && size == 0; way++) {
-                if (refusedAt[8 + way] == limits[8 + way]) {
-                    size = fillBlockedOf(8 + way, Reader.STREAMS_BLOCKED + way, to, at, room);
-                }
-            }
-            return size;
+            return 0;
         }
 
-        private int fillBlockedOf(int grant, int kind, byte[] to, int at, int room) {
+        /** Whether the limit of all data, or of how many streams, holds something up. */
+        private boolean isBlocked(int grant) {
+            if (grant != 4) {
+                return refusedAt[grant] == limits[grant];
+            }
+            boolean unsent = false;
+            for (int id = 0; id < top && !unsent && sentAll >= limits[4]; id++) {
+                unsent = sendings[id] != null && sendings[id].hasUnsent();
+            }
+            return unsent;
+        }
+
+        private int fillBlocked(int grant, int kind, byte[] to, int at, int room) {
+            if (blockedAt[grant] == limits[grant] || !isBlocked(grant)) {
+                return 0;
+            }
             parts[0] = limits[grant];
-            int size = blockedAt[grant] == limits[grant] ? 0 : putParts(to, at, room, kind, 1);
+            int size = putParts(to, at, room, kind, 1);
             if (size > 0) {
                 blockedAt[grant] = limits[grant];
                 describe(kind, 0, (int) limits[grant]);
             }
             return size;
+        }
+
+        private int fillStreamBlocked(byte[] to, int at, int room) {
+            for (int id = 0; id < top; id++) {
+                Sending sending = sendings[id];
+                boolean full = sending != null && sending.hasUnsent() && sending.sent == sending.limit;
+                if (full && sending.blockedAt != sending.limit) {
+                    parts[0] = id;
+                    parts[1] = sending.limit;
+                    int size = putParts(to, at, room, Reader.STREAM_DATA_BLOCKED, 2);
+                    if (size > 0) {
+                        sending.blockedAt = sending.limit;
+                        describe(Reader.STREAM_DATA_BLOCKED, id, sending.sent);
+                        return size;
+                    }
+                }
+            }
+            return 0;
         }
 
         private int fillBytes(byte[] to, int at, int room) {
@@ -3067,15 +3064,19 @@ public final class TransportPair {
             boolean eliciting = false;
             for (int i = 0; i < Outbox.MOST && reader.pos < reader.end && isLive(); i++) {
                 int fault = reader.frame(s);
-                int error = fault == 0 ? perform(s) : fault == Reader.LEVEL ? ERROR_PROTOCOL : ERROR_FRAME;
+                int error = fault == 0 ? 0 : fault == Reader.LEVEL ? ERROR_PROTOCOL : ERROR_FRAME;
+                if (fault == 0 && reader.kind == Reader.ACK) {
+                    boolean right = book.acknowledge(s, reader.b, reader.low, reader.high, reader.ranges);
+                    error = right ? 0 : ERROR_PROTOCOL;
+                    tellFound();
+                } else if (fault == 0) {
+                    error = perform(s);
+                }
                 if (error != 0) {
                     closeWith(error);
                     return;
                 }
                 eliciting |= reader.kind != Reader.PADDING && reader.kind != Reader.ACK;
-                if (reader.kind == Reader.ACK) {
-                    tellFound();
-                }
                 if (reader.kind == Reader.CRYPTO && s < 2) {
                     greet(s);
                     settleGreeting();
@@ -3087,13 +3088,11 @@ public final class TransportPair {
             }
         }
 
-        /** Does the frame that was read: its error, or 0. */
+        /** Does the frame that was read, but for an ACK: its error, or 0. */
         private int perform(int s) {
             switch (reader.kind) {
                 case Reader.PADDING: case Reader.PING: case Reader.NEW_NAME: case Reader.RESPONSE:
                     return 0;
-                case Reader.ACK:
-                    return acknowledge(s);
                 case Reader.CRYPTO:
                     return takeCrypto(s);
                 case Reader.TOKEN:
@@ -3115,16 +3114,13 @@ public final class TransportPair {
                     endsAt = book.time + closingTicks();
                     reason = (reader.kind == Reader.CLOSE ? 10000 : 20000) + (int) Math.min(reader.a, 9999);
                     return 0;
-                default:
+                case Reader.RESET: case Reader.STOP: case Reader.STREAM:
+                case Reader.MAX_STREAM_DATA: case Reader.STREAM_DATA_BLOCKED:
                     return streams.take(reader);
+                default:
+                    streams.takeOfAll(reader);
+                    return 0;
             }
-        }
-
-        private int acknowledge(int s) {
-            if (book.spaces[s].discarded) {
-                return 0;
-            }
-            return book.acknowledge(s, reader.b, reader.low, reader.high, reader.ranges) ? 0 : ERROR_PROTOCOL;
         }
 
         private int takeCrypto(int s) {
@@ -3230,7 +3226,7 @@ public final class TransportPair {
                     continue;
                 }
                 int bit = 1 << (int) id;
-                if ((seen & bit) != 0 || !isParameterRight((int) id)) {
+                if ((seen & bit) != 0 || !isParameterRight((int) id, notes.onlyNumber())) {
                     return false;
                 }
                 seen |= bit;
@@ -3242,39 +3238,21 @@ public final class TransportPair {
         }
 
         /** Whether the parameter whose data was read is the other side's to tell, and its data is right. */
-        private boolean isParameterRight(int id) {
+        private boolean isParameterRight(int id, long value) {
             int size = notes.dataSize;
-            switch (id) {
-                case 0: case 16:
-                    return index == 0 && size <= 20;
-                case 2:
-                    return index == 0 && size == 16;
-                case 13:
-                    return index == 0 && size >= 41 && size <= 61;
-                case 12:
-                    return size == 0;
-                case 15:
-                    return size <= 20;
-                default:
-                    return isNumberRight(id);
-            }
-        }
-
-        private boolean isNumberRight(int id) {
-            int size = notes.dataSize;
-            if (size < 1 || 1 << ((greeting.peer[notes.dataAt] & 255) >> 6) != size) {
-                return false;
-            }
-            notes.pos = notes.dataAt;
-            long value = notes.number();
             told[id] = value;
             switch (id) {
+                case 0: case 16: return index == 0 && size <= 20;
+                case 2: return index == 0 && size == 16;
                 case 3: return value >= 1200;
-                case 8: case 9: return value <= 1152921504606846976L;
-                case 10: return value <= 20;
-                case 11: return value < 16384;
+                case 8: case 9: return value >= 0 && value <= 1152921504606846976L;
+                case 10: return value >= 0 && value <= 20;
+                case 11: return value >= 0 && value < 16384;
+                case 12: return size == 0;
+                case 13: return index == 0 && size >= 41 && size <= 61;
                 case 14: return value >= 2;
-                default: return true;
+                case 15: return size <= 20;
+                default: return value >= 0;
             }
         }
 
