@@ -319,7 +319,7 @@ public final class TransportPair {
     private static final class Line {
         static final int ROOM = 96;
 
-        final byte[][] rows = new byte[ROOM][];
+        final byte[][] rows = new byte[ROOM][0];
         final int[] sizes = new int[ROOM];
         final int[] times = new int[ROOM];
         final int[] order = new int[ROOM];
@@ -341,7 +341,7 @@ public final class TransportPair {
             }
             int slot = order[count];
             // A row is made when its slot is first used: few runs fill a line.
-            if (rows[slot] == null) {
+            if (rows[slot].length < Outbox.MOST) {
                 rows[slot] = new byte[Outbox.MOST];
             }
             System.arraycopy(from, 0, rows[slot], 0, size);
@@ -1124,7 +1124,11 @@ public final class TransportPair {
         }
 
         private int bodySize(Receiving in) {
-            return (in.bytes[in.read + 1] & 255) << 16 | (in.bytes[in.read + 2] & 255) << 8 | in.bytes[in.read + 3] & 255;
+            int size = 0;
+            for (int i = 1; i < 4; i++) {
+                size = size << 8 | in.bytes[in.read + i] & 255;
+            }
+            return size;
         }
 
         /** The type of the message that is wholly there at a level and waited for, or 0. */
@@ -1706,7 +1710,7 @@ public final class TransportPair {
                 return row;
             }
             int room = Math.max(row.length, 32);
-            for (int i = 0; i < 26 && room < need; i++) {
+            for (int i = 0; i < 20 && room < need; i++) {
                 room *= 2;
             }
             return Arrays.copyOf(row, room);
@@ -2478,6 +2482,7 @@ public final class TransportPair {
         boolean closeDue;
         int closeKind;
         int closeCode;
+        private final int[] own = new int[Streams.FRAME];
         private int[] cargo = new int[16 * Streams.FRAME];
         int cargoCount;
         final byte[] bytes = new byte[MOST];
@@ -2600,13 +2605,14 @@ public final class TransportPair {
                 if (s == 2) {
                     putOwnFrames();
                 }
+                int[] frame = s < 2 ? own : streams.filled;
                 for (int i = 0; i < FRAMES_A_PACKET; i++) {
                     int size = s < 2 ? fillCrypto(s) : streams.fill(bytes, pos, limit - pos);
                     if (size == 0) {
                         break;
                     }
                     pos += size;
-                    carry(streams.filled);
+                    carry(frame);
                 }
             }
             if (pos == behindAck && space.probes > 0 && pos < limit) {
@@ -2625,31 +2631,33 @@ public final class TransportPair {
         }
 
         private void putAck(Space space) {
-            int i = space.ranges - 1;
-            if (i < 0) {
+            long[] low = space.low;
+            long[] high = space.high;
+            int first = space.ranges - 1;
+            int delay = space.delay(book.time);
+            if (first < 0) {
                 return;
             }
-            int delay = space.delay(book.time);
-            int size = 2 + Reader.sizeOf(space.high[i]) + Reader.sizeOf(delay) + Reader.sizeOf(space.high[i] - space.low[i]);
+            int size = 2 + Reader.sizeOf(high[first]) + Reader.sizeOf(delay) + Reader.sizeOf(high[first] - low[first]);
             if (size > limit - pos) {
                 return;
             }
             int more = 0;
-            for (int k = i - 1; k >= 0; k--) {
-                size += Reader.sizeOf(space.low[k + 1] - space.high[k] - 2) + Reader.sizeOf(space.high[k] - space.low[k]);
+            for (int k = first - 1; k >= 0; k--) {
+                size += Reader.sizeOf(low[k + 1] - high[k] - 2) + Reader.sizeOf(high[k] - low[k]);
                 if (size > limit - pos) {
                     break;
                 }
                 more++;
             }
             bytes[pos] = Reader.ACK;
-            pos = Reader.putNumber(bytes, pos + 1, space.high[i]);
+            pos = Reader.putNumber(bytes, pos + 1, high[first]);
             pos = Reader.putNumber(bytes, pos, delay);
             pos = Reader.putNumber(bytes, pos, more);
-            pos = Reader.putNumber(bytes, pos, space.high[i] - space.low[i]);
-            for (int k = i - 1; k >= i - more; k--) {
-                pos = Reader.putNumber(bytes, pos, space.low[k + 1] - space.high[k] - 2);
-                pos = Reader.putNumber(bytes, pos, space.high[k] - space.low[k]);
+            pos = Reader.putNumber(bytes, pos, high[first] - low[first]);
+            for (int k = first - 1; k >= first - more; k--) {
+                pos = Reader.putNumber(bytes, pos, low[k + 1] - high[k] - 2);
+                pos = Reader.putNumber(bytes, pos, high[k] - low[k]);
             }
         }
 
@@ -2688,18 +2696,17 @@ public final class TransportPair {
             int next = Reader.putNumber(bytes, pos + 1, from);
             next = Reader.putNumber(bytes, next, size);
             System.arraycopy(goes.bytes, from, bytes, next, size);
-            streams.filled[Streams.KIND] = Reader.CRYPTO;
-            streams.filled[Streams.ID] = s;
-            streams.filled[Streams.FROM] = from;
-            streams.filled[Streams.SIZE] = size;
-            streams.filled[Streams.FIN] = 0;
+            own[Streams.KIND] = Reader.CRYPTO;
+            own[Streams.ID] = s;
+            own[Streams.FROM] = from;
+            own[Streams.SIZE] = size;
             return next + size - pos;
         }
 
         private void carryOwn(int kind) {
-            Arrays.fill(streams.filled, 0);
-            streams.filled[Streams.KIND] = kind;
-            carry(streams.filled);
+            Arrays.fill(own, 0);
+            own[Streams.KIND] = kind;
+            carry(own);
         }
 
         private void carry(int[] frame) {
