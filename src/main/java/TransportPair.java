@@ -7,6 +7,7 @@ public final class TransportPair {
     private static final int MOST_TICKS = 200000;
     private static final int MOST_OUT = 2048;
     private static final int MOST_RAW = 1000;
+    private static final int MOST_CODE = 2147483647;
 
     private final Line[] lines;
     private final Side[] sides;
@@ -102,13 +103,13 @@ public final class TransportPair {
 
     public boolean reset(int side, int id, int code) throws IllegalArgumentException {
         checkPair(side);
-        checkRange(code, Integer.MAX_VALUE);
+        checkRange(code, MOST_CODE);
         return sides[side].streams.wasReset(id, code);
     }
 
     public boolean stop(int side, int id, int code) throws IllegalArgumentException {
         checkPair(side);
-        checkRange(code, Integer.MAX_VALUE);
+        checkRange(code, MOST_CODE);
         return sides[side].streams.stopped(id, code);
     }
 
@@ -752,7 +753,9 @@ public final class TransportPair {
                         + (e & turned[5] ^ ~e & turned[6]);
                     int q = (Integer.rotateRight(a, 2) ^ Integer.rotateRight(a, 13) ^ Integer.rotateRight(a, 22))
                         + (a & turned[1] ^ a & turned[2] ^ turned[1] & turned[2]);
-                    System.arraycopy(turned, 0, turned, 1, 7);
+                    for (int i = 7; i > 0; i--) {
+                        turned[i] = turned[i - 1];
+                    }
                     turned[4] += p;
                     turned[0] = p + q;
                 }
@@ -1054,7 +1057,7 @@ public final class TransportPair {
         int ownSize;
         final byte[] peer = new byte[MOST_PARAMETERS];
         int peerSize = -1;
-        final Sending[] goes = {new Sending(Long.MAX_VALUE), new Sending(Long.MAX_VALUE)};
+        final Sending[] goes = {new Sending(Reader.MOST_NUMBER), new Sending(Reader.MOST_NUMBER)};
         final Receiving[] comes = {new Receiving(0), new Receiving(0)};
 
         Greeting(Seals seals) {
@@ -1098,8 +1101,7 @@ public final class TransportPair {
             seals.mac(made, 32, hash, 32, proof);
         }
 
-        /** Sends a message at a level; its body is the first bytes of a row. */
-        void say(int at, int type, byte[] body, int size) {
+        void say(int at, int type, byte[] body, int bodyAt, int size) {
             int from = saidSize;
             if (size > said.length - from - 4) {
                 return;
@@ -1108,7 +1110,7 @@ public final class TransportPair {
             said[from + 1] = 0;
             said[from + 2] = (byte) (size >>> 8);
             said[from + 3] = (byte) size;
-            System.arraycopy(body, 0, said, from + 4, size);
+            System.arraycopy(body, bodyAt, said, from + 4, size);
             saidSize += 4 + size;
             goes[at].put(said, from, 4 + size);
         }
@@ -1237,7 +1239,6 @@ public final class TransportPair {
             return rows[number * ROW + column];
         }
 
-        /** Adds a packet that is out. */
         void add(int size, int time, int flags, int cargo, int frames) {
             if (sent * ROW + ROW > rows.length) {
                 rows = Arrays.copyOf(rows, 2 * rows.length);
@@ -1328,17 +1329,21 @@ public final class TransportPair {
             }
         }
 
-        private void removeRange(int i) {
-            System.arraycopy(low, i + 1, low, i, ranges - i - 1);
-            System.arraycopy(high, i + 1, high, i, ranges - i - 1);
+        private void removeRange(int at) {
             ranges--;
+            for (int i = at; i < ranges; i++) {
+                low[i] = low[i + 1];
+                high[i] = high[i + 1];
+            }
         }
 
-        private void insertRange(int i, long number) {
-            System.arraycopy(low, i, low, i + 1, ranges - i);
-            System.arraycopy(high, i, high, i + 1, ranges - i);
-            low[i] = number;
-            high[i] = number;
+        private void insertRange(int at, long number) {
+            for (int i = ranges; i > at; i--) {
+                low[i] = low[i - 1];
+                high[i] = high[i - 1];
+            }
+            low[at] = number;
+            high[at] = number;
             ranges++;
         }
 
@@ -1533,7 +1538,6 @@ public final class TransportPair {
             return recovery < 0 || sentAt > recovery;
         }
 
-        /** Looks for the losses of a space. */
         private void losses(int s) {
             Space space = spaces[s];
             foundIn = s;
@@ -2466,6 +2470,13 @@ public final class TransportPair {
         private static final int MOST_CARGO = 15000;
         private static final int FRAMES_A_PACKET = 1200;
         private static final int[] HEADS = {26, 25, 9};
+        private static final int PACKET = 5;
+        private static final int START = 0;
+        /** Behind the frames; -1 without a packet. */
+        private static final int END = 1;
+        private static final int FLAGS = 2;
+        private static final int CARGO = 3;
+        private static final int FRAMES = 4;
 
         private final Seals seals;
         private final Book book;
@@ -2488,11 +2499,8 @@ public final class TransportPair {
         final byte[] bytes = new byte[MOST];
         private int pos;
         private int limit;
-        /** By space, of the datagram that is made: where its packet begins and ends (-1: none), and its marks. */
-        private final int[] starts = new int[3];
-        private final int[] ends = new int[3];
-        private final int[] flags = new int[3];
-        private final int[] carriedFrom = new int[4];
+        /** The packets of the datagram that is made, by space. */
+        private final int[][] packets = new int[3][PACKET];
         boolean elicited;
 
         Outbox(Seals seals, Book book, Streams streams, Greeting greeting) {
@@ -2511,7 +2519,7 @@ public final class TransportPair {
         }
 
         boolean hasPacketOf(int s) {
-            return ends[s] >= 0;
+            return packets[s][END] >= 0;
         }
 
         private static int numberSize(Space space) {
@@ -2523,12 +2531,15 @@ public final class TransportPair {
         int datagram(int most, boolean first, boolean closing) {
             int used = 0;
             int lastOne = -1;
+            elicited = false;
             for (int s = 0; s < 3; s++) {
                 Space space = book.spaces[s];
+                int[] packet = packets[s];
                 int room = most - used - HEADS[s] - 4 - Seals.TAG;
-                ends[s] = -1;
-                flags[s] = 0;
-                carriedFrom[s] = cargoCount;
+                packet[START] = used;
+                packet[END] = -1;
+                packet[FLAGS] = 0;
+                packet[CARGO] = cargoCount;
                 if (!space.armed || room < 4) {
                     continue;
                 }
@@ -2538,35 +2549,33 @@ public final class TransportPair {
                 limit = from + room;
                 int size = closing ? fillClose(s) : fill(s, first);
                 if (size > 0) {
-                    starts[s] = used;
-                    ends[s] = from + size;
-                    pad(s, number + 4);
-                    used = ends[s] + Seals.TAG;
+                    packet[END] = from + size;
+                    packet[FRAMES] = cargoCount - packet[CARGO];
+                    pad(packet, number + 4);
+                    used = packet[END] + Seals.TAG;
                     lastOne = s;
                 }
             }
-            carriedFrom[3] = cargoCount;
             if (lastOne < 0) {
                 return 0;
             }
-            if (ends[0] >= 0 && (flags[0] & Space.ELICITING) != 0) {
-                pad(lastOne, most - Seals.TAG);
-                used = ends[lastOne] + Seals.TAG;
+            if (hasPacketOf(0) && (packets[0][FLAGS] & Space.ELICITING) != 0) {
+                pad(packets[lastOne], most - Seals.TAG);
+                used = packets[lastOne][END] + Seals.TAG;
             }
-            elicited = false;
             for (int s = 0; s < 3; s++) {
-                if (ends[s] >= 0) {
+                if (hasPacketOf(s)) {
                     finishPacket(s);
                 }
             }
             return used;
         }
 
-        private void pad(int s, int end) {
-            if (ends[s] < end) {
-                Arrays.fill(bytes, ends[s], end, (byte) 0);
-                ends[s] = end;
-                flags[s] |= Space.COUNTED;
+        private void pad(int[] packet, int end) {
+            if (packet[END] < end) {
+                Arrays.fill(bytes, packet[END], end, (byte) 0);
+                packet[END] = end;
+                packet[FLAGS] |= Space.COUNTED;
             }
         }
 
@@ -2590,7 +2599,7 @@ public final class TransportPair {
             Space space = book.spaces[s];
             int from = pos;
             if (s == 2 && first && rawSize > 0 && rawSize <= limit - pos) {
-                flags[s] = Space.ELICITING | Space.COUNTED;
+                packets[s][FLAGS] = Space.ELICITING | Space.COUNTED;
                 System.arraycopy(raw, 0, bytes, pos, rawSize);
                 pos += rawSize;
                 rawSize = 0;
@@ -2620,7 +2629,7 @@ public final class TransportPair {
                 pos++;
             }
             if (pos > behindAck) {
-                flags[s] = Space.ELICITING | Space.COUNTED;
+                packets[s][FLAGS] = Space.ELICITING | Space.COUNTED;
             } else if (!due) {
                 return 0;
             }
@@ -2679,10 +2688,9 @@ public final class TransportPair {
             }
         }
 
-        /** Fills a CRYPTO frame of a level: its size, or 0. */
         private int fillCrypto(int s) {
             Sending goes = greeting.goes[s];
-            if (!goes.choose(Long.MAX_VALUE)) {
+            if (!goes.choose(Reader.MOST_NUMBER)) {
                 return 0;
             }
             int from = goes.from;
@@ -2720,28 +2728,29 @@ public final class TransportPair {
 
         private void finishPacket(int s) {
             Space space = book.spaces[s];
-            int from = starts[s];
+            int[] packet = packets[s];
+            int from = packet[START];
             int numberSize = numberSize(space);
             int place = from + HEADS[s];
-            putHead(s, from, numberSize);
+            putHead(s, numberSize);
             for (int i = 0; i < numberSize; i++) {
                 bytes[place + i] = (byte) (space.sent >>> 8 * (numberSize - 1 - i));
             }
-            seals.seal(space.sealing, bytes, from, place + numberSize, ends[s], space.sent);
+            seals.seal(space.sealing, bytes, from, place + numberSize, packet[END], space.sent);
             seals.makeMask(space.sealing, bytes, place + 4);
             bytes[from] ^= (byte) (seals.block[0] & (s == 2 ? 31 : 15));
             for (int i = 0; i < numberSize; i++) {
                 bytes[place + i] ^= seals.block[1 + i];
             }
-            int frames = carriedFrom[s + 1] - carriedFrom[s];
-            book.note(s, ends[s] + Seals.TAG - from, flags[s], carriedFrom[s], frames);
-            if ((flags[s] & Space.ELICITING) != 0) {
+            book.note(s, packet[END] + Seals.TAG - from, packet[FLAGS], packet[CARGO], packet[FRAMES]);
+            if ((packet[FLAGS] & Space.ELICITING) != 0) {
                 elicited = true;
                 space.probes = Math.max(space.probes - 1, 0);
             }
         }
 
-        private void putHead(int s, int from, int numberSize) {
+        private void putHead(int s, int numberSize) {
+            int from = packets[s][START];
             if (s == 2) {
                 bytes[from] = (byte) (64 + numberSize - 1);
                 System.arraycopy(to, 0, bytes, from + 1, Reader.NAME);
@@ -2758,7 +2767,7 @@ public final class TransportPair {
             System.arraycopy(greeting.random, 0, bytes, from + 15, Reader.NAME);
             bytes[from + 23] = 0;
             int lengthAt = from + HEADS[s] - 2;
-            int length = ends[s] + Seals.TAG - lengthAt - 2;
+            int length = packets[s][END] + Seals.TAG - lengthAt - 2;
             bytes[lengthAt] = (byte) (64 + (length >>> 8));
             bytes[lengthAt + 1] = (byte) length;
         }
@@ -2802,8 +2811,8 @@ public final class TransportPair {
         private final Seals seals;
         private final Reader reader;
         private final Reader notes = new Reader();
-        final int[] set = {0, 30000, 0, 0, 65536, 16384, 16384, 16384, 16, 8};
-        final Book book = new Book();
+        final int[] set;
+        final Book book;
         final Streams streams;
         final Greeting greeting;
         final Outbox outbox;
@@ -2822,12 +2831,18 @@ public final class TransportPair {
         private int closingCame;
 
         Side(int index, Seals seals, Reader reader) {
+            int[] parameters = {0, 30000, 0, 0, 65536, 16384, 16384, 16384, 16, 8};
+            Book ownBook = new Book();
+            Streams ownStreams = new Streams(index, parameters);
+            Greeting ownGreeting = new Greeting(seals);
             this.index = index;
             this.seals = seals;
             this.reader = reader;
-            streams = new Streams(index, set);
-            greeting = new Greeting(seals);
-            outbox = new Outbox(seals, book, streams, greeting);
+            set = parameters;
+            book = ownBook;
+            streams = ownStreams;
+            greeting = ownGreeting;
+            outbox = new Outbox(seals, ownBook, ownStreams, ownGreeting);
         }
 
         int seen(int what) {
@@ -2849,7 +2864,6 @@ public final class TransportPair {
             return state == GREETING || state == OPEN;
         }
 
-        /** Side 0 begins. */
         void ask() {
             System.arraycopy(greeting.random, Reader.NAME, firstName, 0, Reader.NAME);
             System.arraycopy(firstName, 0, outbox.to, 0, Reader.NAME);
@@ -2857,7 +2871,7 @@ public final class TransportPair {
             startGreeting();
             book.anxious = true;
             quietSince = book.time;
-            greeting.say(0, Greeting.HELLO, greeting.own, 32 + greeting.ownSize);
+            greeting.say(0, Greeting.HELLO, greeting.own, 0, 32 + greeting.ownSize);
             greeting.waits = Greeting.ANSWER;
             arm();
         }
@@ -2938,7 +2952,6 @@ public final class TransportPair {
             outbox.closeCode = code;
         }
 
-        /** A datagram comes. */
         void receive(byte[] bytes, int size) {
             if (state >= DRAINING || state == IDLE && index == 0) {
                 return;
@@ -3062,7 +3075,6 @@ public final class TransportPair {
             }
         }
 
-        /** Does the frames of a packet that opened. */
         private void work(int s, long number, int firstByte) {
             if ((firstByte & (s == 2 ? 24 : 12)) != 0 || reader.pos >= reader.end) {
                 closeWith(ERROR_PROTOCOL);
@@ -3148,12 +3160,11 @@ public final class TransportPair {
                 switch (type) {
                     case Greeting.HELLO:
                         greeting.accept(type);
-                        greeting.say(0, Greeting.ANSWER, greeting.random, 32);
+                        greeting.say(0, Greeting.ANSWER, greeting.random, 0, 32);
                         greeting.makeGreet();
-                        System.arraycopy(greeting.own, 32, greeting.own, 0, greeting.ownSize);
-                        greeting.say(1, Greeting.PARAMETERS, greeting.own, greeting.ownSize);
+                        greeting.say(1, Greeting.PARAMETERS, greeting.own, 32, greeting.ownSize);
                         greeting.makeProof(1);
-                        greeting.say(1, Greeting.DONE, greeting.proof, 32);
+                        greeting.say(1, Greeting.DONE, greeting.proof, 0, 32);
                         greeting.makeTalk();
                         greeting.waits = Greeting.DONE;
                         break;
@@ -3177,7 +3188,7 @@ public final class TransportPair {
                         if (index == 0) {
                             greeting.makeTalk();
                             greeting.makeProof(0);
-                            greeting.say(1, Greeting.DONE, greeting.proof, 32);
+                            greeting.say(1, Greeting.DONE, greeting.proof, 0, 32);
                         }
                         greeting.done = true;
                         break;
@@ -3290,7 +3301,6 @@ public final class TransportPair {
             return limit > 0 && book.time - quietSince >= Math.max(limit, closingTicks());
         }
 
-        /** One tick of the side. */
         void turn(Line line) {
             int answer = book.pass();
             if (state == CLOSING || state == DRAINING) {
