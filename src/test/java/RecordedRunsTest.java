@@ -5,12 +5,18 @@ import java.util.NoSuchElementException;
 
 /**
  * Runs of random calls, each with the answer that a second program, written from the document alone, gave.
- * The file has a row a call: its name and arguments, and behind "=" the answer or the exception; "new" begins a run.
+ * A file has a row a call: its name and arguments, and behind "=" the answer or the exception; "new" begins a run,
+ * and "tape n s" stands for the calls that make Pairs.row(n, s) the tape.
  */
 public final class RecordedRunsTest {
     public static void main(String[] args) throws Exception {
         Check check = new Check();
-        List<String> rows = Files.readAllLines(Path.of("src/test/data/runs.txt"));
+        replay(check, Files.readAllLines(Path.of("src/test/data/short-runs.txt")));
+        replay(check, Files.readAllLines(Path.of("src/test/data/long-runs.txt")));
+        check.end();
+    }
+
+    private static void replay(Check check, List<String> rows) {
         TransportPair x = null;
         int run = 0;
         for (String row : rows) {
@@ -23,7 +29,6 @@ public final class RecordedRunsTest {
             String got = answer(x, halves[0].split(" "));
             check.isTrue("run " + run + ": " + row + ": answered " + got, got.equals(halves[1]));
         }
-        check.end();
     }
 
     private static String answer(TransportPair x, String[] words) {
@@ -44,6 +49,7 @@ public final class RecordedRunsTest {
 
     static long called(TransportPair x, String name, int[] a) {
         switch (name) {
+            case "tape": Pairs.tape(x, Pairs.row(a[0], a[1])); return 0;
             case "feed": return x.feed(a[0], a[1], a[2], a[3], a[4]);
             case "end": return x.end(a[0]);
             case "key": x.key(a[0]); return 0;

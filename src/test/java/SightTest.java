@@ -17,6 +17,8 @@ public final class SightTest {
         streams();
         lostFrames();
         amplification();
+        manyPackets();
+        quiet();
         check.end();
     }
 
@@ -390,5 +392,52 @@ public final class SightTest {
         check.isTrue("no more than three times what came", x.look(1, 7) <= 3600 && x.look(1, 7) > 3500);
         check.isTrue("so probes stay due", x.look(1, 8) > 0);
         check.due("side 1 is not validated", x.look(1, 3), 0);
+    }
+
+    /** Numbers above 255 are cut to their lowest bytes, and grow again; 4096 packets end a side (this goes beyond 512 calls). */
+    private static void manyPackets() {
+        TransportPair x = Pairs.open(1);
+        x.open(0, true);
+        for (int i = 0; i < 300; i++) {
+            Pairs.write(x, 0, 0, Pairs.row(1, i));
+            x.tick(1);
+        }
+        x.tick(1);
+        check.due("packets", x.space(0, 2, 0), 301);
+        check.due("all came", x.stream(1, 0, 10), 300);
+        for (int i = 0; i < 3794; i++) {
+            Pairs.write(x, 0, 0, Pairs.row(1, i));
+            x.tick(1);
+        }
+        check.due("packets", x.space(0, 2, 0), 4095);
+        check.due("not ended yet", x.look(0, 0), 2);
+        Pairs.write(x, 0, 0, Pairs.row(1, 1));
+        x.tick(1);
+        check.due("one more", x.space(0, 2, 0), 4096);
+        check.due("ended ahead of the next one", x.look(0, 0), 5);
+        check.due("its reason", x.look(0, 1), 50000);
+    }
+
+    /** The QUIET time begins with a packet that opens, and with the first eliciting one that is sent behind it. */
+    private static void quiet() {
+        TransportPair x = Pairs.ready();
+        x.parameter(0, 1, 500);
+        Pairs.open(x, 1);
+        x.flow(0);
+        int opened = x.book(0, 0);
+        Pairs.rawNow(x, 1, 1, 0);
+        opened++;
+        x.tick(400);
+        x.open(0, true);
+        Pairs.write(x, 0, 0, Pairs.row(5, 5));
+        x.tick(1);
+        int sent = x.book(0, 0);
+        x.tick(200);
+        check.isTrue("so long behind what opened", x.book(0, 0) > opened + 500);
+        check.due("it begins anew with an eliciting one", x.look(0, 0), 2);
+        x.tick(sent + 499 - x.book(0, 0));
+        check.due("not anew with the next ones, its probes", x.look(0, 0), 2);
+        x.tick(1);
+        check.due("500 ticks behind it", x.look(0, 1), 40000);
     }
 }
