@@ -336,6 +336,15 @@ public final class ApplicationTest {
             check.due(what + ": state", x.look(1, 0), row[0] < 0 ? 2 : row[0] > 9999 ? 4 : 3);
             check.due(what + ": reason", x.look(1, 1), Math.max(row[0], 0));
         }
+        TransportPair y = Pairs.ready();
+        y.parameter(1, 4, 10);
+        Pairs.open(y, 1);
+        y.flow(0);
+        Pairs.rawNow(y, 0, 14, 0, 5, 1, 9, 14, 4, 3, 1, 9);
+        check.due("RECEIVED is all that may come", y.look(1, 0) * 100 + y.streams(1, 2), 210);
+        Pairs.rawNow(y, 0, 14, 0, 2, 3, 9, 9, 9, 14, 4, 4, 1, 9);
+        check.due("one more in any stream is too many", y.look(1, 1), 3);
+        check.due("what was done stays, what was wrong did nothing", y.stream(1, 4, 11), 4);
         TransportPair x = Pairs.open(1);
         x.flow(0);
         Pairs.rawNow(x, 1, 7, 1, 5);

@@ -105,6 +105,14 @@ public final class LinesTest {
             x.deliver(0, 0);
             check.due("no packet opens with byte " + i + " altered", x.look(1, 0), 0);
         }
+        for (int i = 0; i < 30; i++) {
+            for (int mask = 1; mask < 256; mask++) {
+                x.twice(0, 0);
+                x.alter(0, 0, i, mask);
+                x.deliver(0, 0);
+            }
+            check.due("nor with any other byte " + i + " of its head", x.look(1, 0), 0);
+        }
         x.alter(0, 0, 77, 256);
         x.deliver(0, 0);
         check.due("a mask of 256 is none", x.look(1, 0), 1);

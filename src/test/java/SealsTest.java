@@ -81,12 +81,33 @@ public final class SealsTest {
         datagram = Pairs.datagram(x, 0, 0);
         body = opened(label(8, talk, d4, 32), datagram, 0, 9, datagram.length, 0);
         starts("ACK, STREAM with its end", body, join(bytes(2, 0, 1, 0, 0, 11, 0, 0x40, 70), Pairs.row(70, 1)));
+
+        x.deliver(0, 0);
+        Pairs.rawNow(x, 0, 26, 128, 2, 3, 4, 5, 6, 7, 8, 26, 9, 2, 253, 4, 5, 6, 7, 255);
+        x.reset(1, 0, 300);
+        x.stop(1, 0, 1);
+        x.tick(1);
+        datagram = Pairs.datagram(x, 1, 0);
+        body = opened(label(9, talk, d4, 32), datagram, 0, 9, datagram.length, 1);
+        starts("ACK, RESPONSE to the latest, RESET", body,
+            bytes(2, 1, 1, 0, 1, 27, 9, 2, 253, 4, 5, 6, 7, 255, 4, 0, 0x41, 0x2c, 0));
+        check.due("STOP is for what is not whole yet", body.length, 19);
+        x.deliver(1, 0);
+        x.open(0, false);
+        Pairs.write(x, 0, 2, Pairs.row(3000, 2));
+        x.tick(1);
+        datagram = Pairs.datagram(x, 0, 0);
+        check.due("a datagram full but for the two bytes that a number may have more", datagram.length, 1198);
+        body = opened(label(8, talk, d4, 32), datagram, 0, 9, 1198, 2);
+        starts("STREAM ahead of its offset", body, bytes(2, 1, 1, 0, 1, 10, 2, 0x44, 0x8a));
+        body = opened(label(8, talk, d4, 32), Pairs.datagram(x, 0, 1), 0, 9, 1198, 3);
+        starts("STREAM with its offset", body, bytes(14, 2, 0x44, 0x8a, 0x44, 0x8d));
         check.end();
     }
 
     private static void starts(String what, byte[] got, byte[] want) {
         boolean same = got.length >= want.length && Arrays.equals(Arrays.copyOf(got, want.length), want);
-        check.isTrue(what + " " + Arrays.toString(got) + " begins with " + Arrays.toString(want), same);
+        check.isTrue(what + ": begins with " + Arrays.toString(want), same);
     }
 
     private static byte[] bytes(int... all) {

@@ -97,6 +97,13 @@ public final class SightTest {
         check.due("a sample with a longer way back", y.book(0, 7), 37);
         check.due("the delay of 25 is taken off in VARY", y.book(0, 6), vary + Math.abs(smooth / 8 - 12) - vary / 4);
         check.due("and in SMOOTH", y.book(0, 5), smooth + 12 - smooth / 8);
+        TransportPair z = Pairs.open(3);
+        z.flow(0);
+        check.due("an ACK alone is out", z.space(0, 2, 4), 1);
+        String before = z.book(0, 5) + " " + z.book(0, 6) + " " + z.book(0, 7);
+        Pairs.rawNow(z, 1, 2, 0, 0, 0, 0);
+        check.due("acknowledged by raw bytes", z.space(0, 2, 4), 0);
+        check.isTrue("no sample without an eliciting one", before.equals(z.book(0, 5) + " " + z.book(0, 6) + " " + z.book(0, 7)));
     }
 
     private static void window() {
