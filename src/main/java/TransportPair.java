@@ -1862,12 +1862,13 @@ public final class TransportPair {
             return state == OPEN || state == SIZED;
         }
 
-        /** Bytes come to their places; over: also where some were. */
+        /** Bytes come to their places; over: also where some were, but not where they are ready, and so taken. */
         void put(byte[] source, int from, int count, int at, boolean over) {
             bytes = Sending.widened(bytes, at + count);
             have = Sending.widened(have, at + count);
             for (int i = 0; i < count; i++) {
-                if (over || have[at + i] == 0) {
+                boolean isFree = over ? at + i >= ready : have[at + i] == 0;
+                if (isFree) {
                     bytes[at + i] = source[from + i];
                     have[at + i] = 1;
                 }
