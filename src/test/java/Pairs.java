@@ -72,6 +72,41 @@ final class Pairs {
         return ready;
     }
 
+    /** Both sides are open and confirmed, nothing is on the lines, and there is no flow; 0 has gone each way in space 2. */
+    static TransportPair still(TransportPair ready) {
+        open(ready, 1);
+        ready.flow(0);
+        return ready;
+    }
+
+    static TransportPair still() {
+        return still(ready());
+    }
+
+    /** Both sides have keys and random bytes; each three numbers are a side, an id and a parameter. */
+    static TransportPair with(int... parameters) {
+        TransportPair x = ready();
+        for (int i = 0; i < parameters.length; i += 3) {
+            x.parameter(parameters[i], parameters[i + 1], parameters[i + 2]);
+        }
+        return x;
+    }
+
+    /** All that is on a way comes. */
+    static void pass(TransportPair x, int way) {
+        while (x.line(way, 0) > 0) {
+            x.deliver(way, 0);
+        }
+    }
+
+    static void clear(TransportPair x) {
+        for (int way = 0; way < 2; way++) {
+            while (x.line(way, 0) > 0) {
+                x.drop(way, 0);
+            }
+        }
+    }
+
     static int write(TransportPair x, int side, int id, byte[] bytes) {
         tape(x, bytes);
         return x.write(side, id);
@@ -79,12 +114,14 @@ final class Pairs {
 
     /** Sends raw bytes to the other side, which has them at once; there must be no flow. */
     static void rawNow(TransportPair x, int side, int... bytes) {
+        rawNow(x, side, Keys.bytes(bytes));
+    }
+
+    static void rawNow(TransportPair x, int side, byte[] bytes) {
         tape(x, bytes);
         x.raw(side);
         x.tick(1);
-        while (x.line(side, 0) > 0) {
-            x.deliver(side, 0);
-        }
+        pass(x, side);
     }
 
     static byte[] out(TransportPair x, int size) {
