@@ -21,11 +21,16 @@ public final class BookEdgesTest {
         windowIsHalved();
         growsAtTheThreshold();
         longSilence();
+        longSilenceFromTheFirstNumber();
         backoffIsAtMostTen();
         anxious();
         spaceTwoAheadOfConfirmed();
         leastSpaceFirst();
         discarded();
+        forgotten();
+        acknowledgedInNoSpace();
+        earliestOfTwo();
+        doneLost();
         ranges();
         rangesGrowTogether();
         dueInTheLastSpace();
@@ -247,6 +252,8 @@ public final class BookEdgesTest {
         check.due("one less", x.book(0, 8), least - 1);
         sample(x, 0, 0);
         check.due("0", x.book(0, 8), 0);
+        sample(x, 2, 0);
+        check.due("2 behind 0", x.book(0, 8), 0);
     }
 
     /** "(VARY, at least 1)"; "LIMIT is .., at least 1": a first sample of 0. */
@@ -265,6 +272,9 @@ public final class BookEdgesTest {
         check.due("PATIENCE", x.space(0, 0, 8), 1);
         check.due("one is out, of the same tick", x.space(0, 0, 4), 1);
         check.due("LOSS TIME", x.space(0, 0, 2), 302);
+        x.tick(1);
+        check.due("lost by it, and HELLO goes again", x.space(0, 0, 0) * 10 + x.space(0, 0, 4), 41);
+        check.due("no LOSS TIME", x.space(0, 0, 2), -1);
         TransportPair y = Pairs.still();
         for (int i = 0; i < 40; i++) {
             sample(y, 0, 0);
@@ -443,10 +453,12 @@ public final class BookEdgesTest {
 
     private static TransportPair silent(boolean isLong, boolean between) {
         TransportPair dry = Pairs.still();
+        told(dry, ack(0, 0, 0));
         ping(dry, 2);
         sample(dry, 1, 0);
         int ticks = 3 * (int) dry.space(0, 2, 8) + (isLong ? 1 : 0);
         TransportPair x = Pairs.still();
+        told(x, ack(0, 0, 0));
         long first = ping(x, 2);
         x.tick(ticks / 2);
         long middle = ping(x, 2);
@@ -456,7 +468,7 @@ public final class BookEdgesTest {
         long greatest = ping(x, 2);
         told(x, between ? Forge.frame(2, greatest, 0, 1, 0, greatest - middle - 2, 0) : ack(greatest, 0, 0));
         check.due("PATIENCE", x.space(0, 2, 8), dry.space(0, 2, 8));
-        check.due("nothing is out but 0", x.space(0, 2, 4), x.space(0, 2, 0) - 1 - greatest);
+        check.due("nothing below it is out", x.space(0, 2, 4), x.space(0, 2, 0) - 1 - greatest);
         return x;
     }
 
@@ -472,6 +484,50 @@ public final class BookEdgesTest {
         TransportPair z = silent(true, true);
         check.due("one between them has come", z.book(0, 2), 6000);
         check.due("RECOVERY", z.book(0, 4), z.book(0, 0));
+    }
+
+    /** The first one that is lost may have the number 0: DONE of side 1. */
+    private static void longSilenceFromTheFirstNumber() {
+        int edges = 0;
+        for (int ticks = 60; ticks <= 110; ticks++) {
+            TransportPair x = Pairs.begun();
+            for (int i = 0; i < 4; i++) {
+                x.tick(1);
+                if (x.line(i % 2, 0) > 0) {
+                    x.deliver(i % 2, 0);
+                }
+                if (x.look(1, 0) == 2) {
+                    break;
+                }
+            }
+            check.due("OPEN", x.look(1, 0), 2);
+            Pairs.clear(x);
+            x.tick(1);
+            int first = x.book(1, 0);
+            check.due("DONE is number 0", x.space(1, 2, 0), 1);
+            x.tick(ticks - 1);
+            Pairs.tape(x, 1, 1);
+            x.raw(1);
+            x.tick(1);
+            int last = x.book(1, 0);
+            Pairs.tape(x, 1, 1);
+            x.raw(1);
+            x.tick(1);
+            long greatest = x.space(1, 2, 0) - 1;
+            while (x.line(1, 0) > 0 && x.at(1, x.line(1, 0) - 1, -1) != 29) {
+                greatest--;
+                x.drop(1, x.line(1, 0) - 1);
+            }
+            Pairs.clear(x);
+            Pairs.tape(x, ack(greatest, 0, 0));
+            x.raw(0);
+            x.tick(1);
+            x.deliver(0, 0);
+            int over = last - first - 3 * (int) x.space(1, 2, 8);
+            edges += over == 0 || over == 1 ? 1 : 0;
+            check.due(over + " ticks over 3 * PATIENCE", x.book(1, 2), over > 0 ? 2400 : 6000);
+        }
+        check.due("both edges were met", edges, 2);
     }
 
     /** "BACKOFF grows by 1, to 10 at most"; "PATIENCE * 2 to the BACKOFF". */
@@ -598,6 +654,102 @@ public final class BookEdgesTest {
         int inSpaceOne = (int) y.space(0, 1, 0);
         check.due("two", inSpaceOne, 3);
         check.due("space 0, discarded already, leaves BACKOFF", y.book(0, 9), 1);
+    }
+
+    /** ".. and what came is forgotten (no ranges, FLOOR 0, nothing pending); BACKOFF is 0." */
+    private static void forgotten() throws Exception {
+        Forge forge = new Forge();
+        TransportPair x = Pairs.begun();
+        x.tick(1);
+        x.twice(0, 0);
+        x.deliver(0, 0);
+        x.tick(1);
+        for (int n = 2; n <= 140; n += 2) {
+            Forge.comes(x, 0, forge.packet(0, 0, n, 1200, Keys.bytes(1)));
+        }
+        check.due("64 ranges", x.space(1, 0, 6), 64);
+        check.due("FLOOR", x.space(1, 0, 10), 13);
+        check.due("pending", x.space(1, 0, 7), 70);
+        Forge.comes(x, 0, forge.packet(1, 0, 0, 1200, Keys.bytes(1)));
+        long[] row = {1, -1, -1, -1, 0, 0, 0, 0, 300, 1, 0, 0};
+        for (int what = 0; what < row.length; what++) {
+            check.due("forgotten: " + what, x.space(1, 0, what), row[what]);
+        }
+        TransportPair y = Pairs.begun();
+        y.tick(300);
+        y.deliver(0, 0);
+        y.tick(1);
+        check.due("BACKOFF of both", y.book(0, 9) * 10 + y.book(1, 9), 10);
+        byte[] answers = forge.packet(0, 1, 0, 0, Forge.crypto(0, forge.answer));
+        Forge.comes(y, 1, Keys.join(answers, forge.packet(1, 1, 0, 1200 - answers.length, Keys.bytes(1))));
+        check.due("no acknowledgement", y.book(0, 9), 1);
+        y.tick(1);
+        check.due("space 0 is discarded, and BACKOFF is 0", y.space(0, 0, 9) * 10 + y.book(0, 9), 10);
+    }
+
+    /** "in a space that is there": an ACK behind what discards its space is nothing, a wrong one, too. */
+    private static void acknowledgedInNoSpace() throws Exception {
+        Forge forge = new Forge();
+        for (int order = 0; order < 2; order++) {
+            TransportPair x = Pairs.begun();
+            x.tick(1);
+            x.twice(0, 0);
+            x.deliver(0, 0);
+            x.tick(1);
+            byte[] done = Forge.crypto(0, forge.done0);
+            byte[] wrong = ack(50, 0, 0);
+            Forge.comes(x, 0, forge.packet(1, 0, 0, 1200, order == 0 ? Keys.join(done, wrong) : Keys.join(wrong, done)));
+            check.due("behind DONE, or ahead of it", x.look(1, 0) * 100 + x.look(1, 1), order == 0 ? 200 : 310);
+        }
+    }
+
+    /** "Otherwise, if some PROBE TIME is not above it: .. the space with the earliest": space 1, though space 0 is due, too. */
+    private static void earliestOfTwo() throws Exception {
+        Forge forge = new Forge();
+        TransportPair x = Pairs.begun();
+        x.tick(1);
+        x.twice(0, 0);
+        x.deliver(0, 0);
+        x.tick(301);
+        check.due("probed in space 0", x.space(1, 0, 0) * 10 + x.space(1, 1, 0), 31);
+        Forge.comes(x, 0, forge.packet(0, 0, 1, 1200, ack(2, 0, 0)));
+        check.due("a sample of 0", x.book(1, 5) + x.book(1, 9), 0);
+        check.due("LOSS TIME goes first", x.space(1, 0, 2), 303);
+        x.tick(1);
+        check.due("ANSWER again", x.space(1, 0, 0) * 10 + x.space(1, 1, 0), 41);
+        check.due("both are due in the next tick", x.space(1, 0, 3) * 1000 + x.space(1, 1, 3), 304003);
+        x.tick(1);
+        check.due("space 1 has two probes", x.space(1, 1, 0), 3);
+        check.due("space 0 none", x.space(1, 0, 0), 4);
+    }
+
+    /** "DONE: lost, it is to be sent again, if it never arrived." */
+    private static void doneLost() throws Exception {
+        Forge forge = new Forge();
+        for (int arrived = 0; arrived < 2; arrived++) {
+            TransportPair x = Pairs.begun();
+            x.tick(1);
+            x.deliver(0, 0);
+            x.tick(1);
+            x.deliver(1, 0);
+            x.tick(1);
+            x.deliver(0, 0);
+            Pairs.clear(x);
+            x.tick(1);
+            check.due("DONE", forge.inside(x, 1, 0)[0], 30);
+            Pairs.clear(x);
+            x.tick((int) x.space(1, 2, 3) - x.book(1, 0));
+            check.due("lost: again", forge.inside(x, 1, 0)[0], 30);
+            Pairs.clear(x);
+            Pairs.tape(x, arrived == 0 ? Keys.bytes(1, 1) : ack(0, 0, 0));
+            x.raw(0);
+            x.tick(1);
+            x.deliver(0, 0);
+            Pairs.clear(x);
+            x.tick((int) x.space(1, 2, 3) - x.book(1, 0));
+            byte[] got = forge.inside(x, 1, x.line(1, 0) - 2);
+            check.due("lost once more, " + arrived + " arrived", got[got.length - 2] == 30 || got[got.length - 1] == 30 ? 1 : 0, 1 - arrived);
+        }
     }
 
     /** Side 0's packets in space 2 by number, each with a PING. */

@@ -316,6 +316,15 @@ public final class EndEdgesTest {
         check.due("its own, 2000 ticks from the first packet on: one less", y.look(0, 0), 1);
         y.tick(1);
         check.due("2000", y.look(0, 0) * 100000 + y.look(0, 1), 540000);
+        TransportPair late = Pairs.with(0, 1, 1);
+        late.tick(1000);
+        late.begin();
+        late.tick(1);
+        check.due("begun late: the time ahead of it does not count", late.look(0, 0), 1);
+        late.tick(974);
+        check.due("3 * 325 ticks behind the first packet, one less", late.look(0, 0), 1);
+        late.tick(1);
+        check.due("then", late.look(0, 1), 40000);
         TransportPair z = Pairs.with(0, 1, 2000, 1, 1, 1000);
         z.begin();
         z.tick(1);

@@ -11,6 +11,7 @@ public final class FillEdgesTest {
         roomOfReset();
         roomOfStop();
         roomOfMax();
+        roomOfBlocked();
         roomOfTheEnd();
         roomOfBytes();
         wholeDatagrams();
@@ -19,6 +20,7 @@ public final class FillEdgesTest {
         orderOfFrames();
         turnOfStreams();
         lostBytes();
+        lostTwice();
         theEnd();
         dataBlocked();
         streamBlocked();
@@ -169,6 +171,36 @@ public final class FillEdgesTest {
             byte[] ahead = room < 2 ? Keys.NONE : room < 3 ? frames[2] : room < 5 ? frames[0]
                 : room < 6 ? Keys.join(frames[0], frames[2]) : room < 8 ? Keys.join(frames[0], frames[1]) : Keys.join(frames);
             same("MAX .. in a room of " + room, Arrays.copyOfRange(first, ROOM - room, first.length), ahead);
+            byte[] others = room < 2 ? Keys.join(frames) : room < 3 ? Keys.join(frames[0], frames[1])
+                : room < 5 ? Keys.join(frames[1], frames[2]) : room < 6 ? frames[1] : room < 8 ? frames[2] : Keys.NONE;
+            check.due("how many datagrams", x.line(0, 0), room < 8 ? 2 : 1);
+            if (room < 8) {
+                same("the others", forge.inside(x, 0, 1), others);
+            }
+        }
+    }
+
+    private static void roomOfBlocked() throws Exception {
+        int[][] sets = {{1, 8, 64, 1, 9, 64, 1, 4, 0}, {1, 8, 64, 1, 9, 64, 1, 6, 0}, WIDE};
+        byte[][] frames = {frame(20, 0), frame(21, 0, 0), frame(22, 64)};
+        for (int i = 0; i < 3; i++) {
+            Forge forge = new Forge(sets[i]);
+            for (int room = frames[i].length - 1; room <= frames[i].length; room++) {
+                TransportPair x = filledUp(Pairs.still(Pairs.with(sets[i])), ROOM - room);
+                if (i < 2) {
+                    Pairs.write(x, 0, 0, Pairs.row(1, 0));
+                } else {
+                    x.open(0, true);
+                }
+                x.tick(1);
+                byte[] first = forge.inside(x, 0, 0);
+                boolean fits = room == frames[i].length;
+                same("BLOCKED in a room of " + room, Arrays.copyOfRange(first, ROOM - room, first.length), fits ? frames[i] : Keys.NONE);
+                check.due("how many datagrams", x.line(0, 0), fits ? 1 : 2);
+                if (!fits) {
+                    same("in the next one", forge.inside(x, 0, 1), frames[i]);
+                }
+            }
         }
     }
 
@@ -361,6 +393,41 @@ public final class FillEdgesTest {
             frame(10, 0, 20), Arrays.copyOf(row, 20), frame(14, 0, 30, 10), Arrays.copyOfRange(row, 30, 40),
             frame(14, 0, 63, 2), Pairs.row(2, 5));
         check.due("none is LOST", x.stream(0, 0, 5), 0);
+        Pairs.clear(x);
+        long ping = x.space(0, 2, 0);
+        Pairs.tape(x, 1, 1);
+        x.raw(0);
+        Pairs.tape(x, frame(2, ping, 0, 0, 0));
+        x.raw(1);
+        x.tick(1);
+        Pairs.pass(x, 1);
+        check.due("all of them are LOST again", x.stream(0, 0, 5), 35);
+        same("from the first one on", sent(x, forge), frame(10, 0, 20), Arrays.copyOf(row, 20), frame(14, 0, 30, 10),
+            Arrays.copyOfRange(row, 30, 40), frame(14, 0, 60, 5), Pairs.row(3, 9), Pairs.row(2, 5));
+    }
+
+    /** "LOST perhaps more than once": by a probe, and with both packets that had them. */
+    private static void lostTwice() throws Exception {
+        Forge forge = new Forge();
+        TransportPair x = Pairs.still();
+        x.open(0, true);
+        Pairs.write(x, 0, 0, Pairs.row(8, 0));
+        sent(x, forge);
+        Pairs.clear(x);
+        x.tick((int) (x.space(0, 2, 3) - x.book(0, 0)));
+        same("sent again", forge.inside(x, 0, 0), frame(10, 0, 8), Pairs.row(8, 0));
+        long ping = x.space(0, 2, 0);
+        Pairs.clear(x);
+        Pairs.tape(x, 1, 1);
+        x.raw(0);
+        Pairs.tape(x, frame(2, ping, 0, 0, 0));
+        x.raw(1);
+        x.tick(1);
+        Pairs.pass(x, 1);
+        check.due("eight bytes are LOST", x.stream(0, 0, 5), 8);
+        same("and sent once", sent(x, forge), frame(10, 0, 8), Pairs.row(8, 0));
+        check.due("none is LOST", x.stream(0, 0, 5), 0);
+        same("no more", sent(x, forge));
     }
 
     /** "If the frame goes to the end of what is written, and it is FINISHED, its c is 1." */
@@ -414,6 +481,9 @@ public final class FillEdgesTest {
         Pairs.clear(x);
         x.tick((int) (x.space(0, 2, 3) - x.book(0, 0)));
         same("lost: the bytes and it again", forge.inside(x, 0, 0), frame(20, 10), frame(10, 0, 10), Pairs.row(10, 0));
+        acknowledged(x, 1, 1);
+        Pairs.clear(x);
+        same("arrived: not again", sent(x, forge));
         x.reset(0, 0, 1);
         same("what is reset is not blocked", sent(x, forge), frame(4, 0, 1, 10));
     }
@@ -446,6 +516,17 @@ public final class FillEdgesTest {
         Pairs.clear(x);
         x.tick((int) (x.space(0, 2, 3) - x.book(0, 0)));
         same("lost: again", new Forge(1, 6, 0).inside(x, 0, 0), frame(21, 0, 0));
+        acknowledged(x, 1, 1);
+        same("arrived: not again", sent(x, new Forge(1, 6, 0)));
+        TransportPair z = Pairs.still(Pairs.with(1, 4, 0));
+        z.open(0, true);
+        Pairs.write(z, 0, 0, Pairs.row(1, 0));
+        same("a limit of all data of 0", sent(z, new Forge(1, 4, 0)), frame(20, 0));
+        for (int i = 0; i < 2; i++) {
+            Pairs.clear(z);
+            z.tick((int) (z.space(0, 2, 3) - z.book(0, 0)));
+            same("lost: again", new Forge(1, 4, 0).inside(z, 0, 0), frame(20, 0));
+        }
         TransportPair y = Pairs.still(Pairs.with(1, 4, 10, 1, 6, 10));
         y.open(0, true);
         Pairs.write(y, 0, 0, Pairs.row(11, 0));

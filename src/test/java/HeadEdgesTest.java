@@ -14,6 +14,7 @@ public final class HeadEdgesTest {
         lengths();
         tokens();
         shortOnes();
+        firstBytesOfShortOnes();
         packetsOfADatagram();
         datagramsForSideOne();
         datagramsForSideZero();
@@ -82,6 +83,11 @@ public final class HeadEdgesTest {
             byte[] p = packet(forge, 0xc1 + 16 * kind, 1, forge.name0, 0, 60);
             // Kind 2 has no token: its LENGTH is the byte 0 of the token, which is less than 20.
             check.due("kind " + kind, taken(forge, p), kind == 0 ? 3 : 0);
+        }
+        for (int kind = 1; kind <= 3; kind += 2) {
+            byte[] header = Keys.join(Keys.bytes(0xc1 + 16 * kind, 0, 0, 0, 1, 8), forge.firstName, Keys.bytes(8), forge.name0, Keys.bytes(64, 34));
+            byte[] p = Keys.packet(forge.secrets[0][0], header, 0, Arrays.copyOf(PING, 16));
+            check.due("kind " + kind + ", its LENGTH behind the names", taken(forge, p), 0);
         }
         byte[] middle = forge.packet(1, 0, 0, 60, PING);
         byte[] named = Keys.join(Arrays.copyOf(middle, 6), forge.firstName, Arrays.copyOfRange(middle, 14, middle.length));
@@ -194,17 +200,39 @@ public final class HeadEdgesTest {
         check.due("a number of one byte", x.space(1, 2, 7), 2);
         Forge.comes(x, 0, forge.shortPacket(0, 3, 9, Keys.NONE));
         check.due("a number of four bytes, and no frames", x.look(1, 1), 10);
-        for (int left = 0; left <= 21; left++) {
+        byte[] ahead = forge.packet(1, 0, 0, 60, PING);
+        for (int size = 0; size <= 32; size++) {
             TransportPair y = Pairs.still();
-            Pairs.tape(y, new byte[9 + left]);
+            Pairs.tape(y, new byte[60 + size - 27]);
             y.raw(0);
             y.tick(1);
-            int size = y.at(0, 0, -1);
-            byte[] tail = Arrays.copyOf(forge.shortPacket(0, 1, 5, Keys.bytes(1, 1, 1)), 9 + left);
-            byte[] ahead = new byte[size - 9 - left];
-            Forge.comes(y, 0, Keys.join(ahead, tail));
-            check.due("what is wrong ahead of " + left, y.look(1, 0), 2);
+            byte[] whole = forge.shortPacket(0, 1, 5, new byte[Math.max(size - 27, 0)]);
+            long ranges = y.space(1, 2, 6);
+            Forge.comes(y, 0, Keys.join(ahead, Arrays.copyOf(whole, size)));
+            check.due(size + " bytes behind one that is left out", y.space(1, 2, 6) - ranges, size >= 29 ? 1 : 0);
+            check.due("no error", y.look(1, 1), 0);
         }
+    }
+
+    /** A short one's first byte is 64 .. 127 on the line, whatever hides it. */
+    private static void firstBytesOfShortOnes() throws Exception {
+        Forge forge = new Forge();
+        boolean[] seen = new boolean[128];
+        TransportPair x = Pairs.still();
+        Pairs.tape(x, 1, 1, 1, 1);
+        x.raw(0);
+        x.tick(1);
+        long came = x.space(1, 2, 7);
+        for (int n = 1; n < 400; n++) {
+            byte[] p = forge.shortPacket(0, 1 + n % 2 * 32, n, Keys.bytes(1, 1, 1, 1));
+            if (!seen[p[0]]) {
+                seen[p[0]] = true;
+                came++;
+                Forge.comes(x, 0, p);
+                check.due("a first byte of " + p[0], x.space(1, 2, 7), came);
+            }
+        }
+        check.isTrue("the least and the greatest were met", seen[64] && seen[127]);
     }
 
     /** "Reading it ends at the first that is wrong, or (6 OTHER) whose name TO is not that of the first." */

@@ -28,6 +28,7 @@ public final class StreamEdgesTest {
         takenWithWrongState();
         takenBeyondTheLimit();
         takenWithWrongSize();
+        takenBehindAnEmptyOne();
         takenBeyondTheFlow();
         errorsInTheirOrder();
         takenInLateStates();
@@ -502,6 +503,25 @@ public final class StreamEdgesTest {
                 check.due("RECEIVED", z.streams(1, 2), e);
             }
         }
+    }
+
+    /** A SIZE of 0 is known, too. */
+    private static void takenBehindAnEmptyOne() {
+        byte[][] frames = {bytes(2, 0, 1), end(2, 0, 1), frame(4, 2, 0, 1), bytes(2, 1, 0)};
+        for (byte[] frame : frames) {
+            TransportPair x = Pairs.still();
+            right("the size is 0", x, end(2, 0, 0));
+            check.due("READ at once, and over", x.stream(1, 2, 8) * 100 + x.streams(1, 12), 309);
+            right("nothing at 0", x, bytes(2, 0, 0), end(2, 0, 0), frame(4, 2, 0, 0));
+            check.due("over only once", x.streams(1, 12), 9);
+            wrong("behind it", x, SIZE, frame);
+        }
+        TransportPair y = Pairs.still();
+        right("three bytes", y, bytes(2, 0, 3));
+        y.read(1, 2, 3);
+        check.due("not over yet", y.streams(1, 12), 8);
+        right("the end, when all were handed out", y, end(2, 3, 0));
+        check.due("over by that", y.streams(1, 12), 9);
     }
 
     private static TransportPair sized() {
