@@ -22,6 +22,8 @@ public final class BookEdgesTest {
         growsAtTheThreshold();
         longSilence();
         longSilenceFromTheFirstNumber();
+        silenceBehindTheFirstSample();
+        lossTimesOfTwoSpaces();
         backoffIsAtMostTen();
         anxious();
         spaceTwoAheadOfConfirmed();
@@ -484,6 +486,96 @@ public final class BookEdgesTest {
         TransportPair z = silent(true, true);
         check.due("one between them has come", z.book(0, 2), 6000);
         check.due("RECOVERY", z.book(0, 4), z.book(0, 0));
+    }
+
+    /** Side 0 is OPEN, without a sample; DONE has come if it is confirmed. A datagram of 1200 lies on way 1. */
+    private static TransportPair unsampled(Forge forge, boolean confirmed) throws Exception {
+        TransportPair x = Pairs.begun();
+        x.tick(1);
+        x.deliver(0, 0);
+        x.tick(1);
+        byte[] answers = forge.packet(0, 1, 0, 0, Forge.crypto(0, forge.answer));
+        Forge.comes(x, 1, Keys.join(answers, forge.packet(1, 1, 0, 1200 - answers.length, Forge.crypto(0, forge.granted))));
+        if (confirmed) {
+            x.tick(1);
+            comesLast(x, forge, 0, Keys.bytes(30));
+            check.due("both spaces are discarded", x.space(0, 0, 9) + x.space(0, 1, 9), 2);
+        }
+        check.due("OPEN, no sample", x.look(0, 0) * 10000 + x.book(0, 5), 20800);
+        return x;
+    }
+
+    /** A packet of space 2 by side 1, with a number and frames. */
+    private static void comesLast(TransportPair x, Forge forge, long number, byte[] frames) throws Exception {
+        Forge.comes(x, 1, forge.shortPacket(1, 3, number, java.util.Arrays.copyOf(frames, 1200 - 9 - 4 - 16)));
+    }
+
+    /** "that were sent after the time of the first sample": not one of the same tick. */
+    private static void silenceBehindTheFirstSample() throws Exception {
+        Forge forge = new Forge();
+        for (int more = 0; more < 2; more++) {
+            TransportPair x = unsampled(forge, true);
+            x.tick(1);
+            x.open(0, true);
+            Pairs.write(x, 0, 0, Pairs.row(5, 0));
+            Pairs.tape(x, 1, 1);
+            x.raw(0);
+            x.tick(1);
+            int first = x.book(0, 0);
+            long n = x.space(0, 2, 0) - 2;
+            comesLast(x, forge, 1, ack(n, 0, 0));
+            check.due("a first sample of 0", x.book(0, 5) + x.book(0, 6) + x.book(0, 8), 0);
+            check.due("one of the same tick is out", x.space(0, 2, 5), 1);
+            Pairs.tape(x, 1, 1);
+            x.raw(0);
+            x.tick(1);
+            x.tick(77 + more);
+            Pairs.tape(x, 1, 1);
+            x.raw(0);
+            int before = (int) x.space(0, 2, 0);
+            x.tick(1);
+            check.due("3 * PATIENCE and 1 behind the first sample, or 2", x.book(0, 0) - first, 79 + more);
+            check.isTrue("the last one", x.space(0, 2, 0) > before);
+            Pairs.tape(x, 1, 1);
+            x.raw(0);
+            long greatest = x.space(0, 2, 0);
+            x.tick(1);
+            comesLast(x, forge, 2, ack(greatest, 0, 0));
+            check.due("PATIENCE", x.space(0, 2, 8), 26);
+            check.due("the one of the same tick does not count", x.book(0, 2), more == 0 ? 6000 : 2400);
+        }
+    }
+
+    /** "losses of the space with the earliest (the least such space) are looked for". */
+    private static void lossTimesOfTwoSpaces() throws Exception {
+        Forge forge = new Forge();
+        TransportPair x = unsampled(forge, false);
+        for (int i = 1; i <= 3; i++) {
+            Pairs.tape(x, 1, 1);
+            x.raw(0);
+            x.tick(1);
+            Forge.comes(x, 1, forge.packet(1, 1, i, 1200, Keys.bytes(1)));
+        }
+        int start = x.book(0, 0) - 2;
+        check.due("three in each space", x.space(0, 1, 4) * 10 + x.space(0, 2, 4), 33);
+        x.tick(32);
+        check.due("the last PING is told, too", x.space(0, 1, 4), 4);
+        comesLast(x, forge, 0, ack(2, 0, 0));
+        Forge.comes(x, 1, forge.packet(1, 1, 4, 1200, ack(2, 0, 0)));
+        check.due("LIMIT", x.book(0, 10), 36);
+        check.due("LOSS TIME of both", x.space(0, 1, 2) * 1000 + x.space(0, 2, 2), (start + 36) * 1001);
+        x.tick(start + 35 - x.book(0, 0));
+        long one = x.space(0, 1, 0);
+        check.due("not yet", x.space(0, 2, 4), 2);
+        x.tick(1);
+        check.due("space 1 first: LOSS TIME of its next one", x.space(0, 1, 2), start + 37);
+        check.due("space 2 waits", x.space(0, 2, 2) * 10 + x.space(0, 2, 4), (start + 36) * 10 + 2);
+        check.isTrue("DONE goes again", x.space(0, 1, 0) > one);
+        x.tick(1);
+        check.due("then space 2, which is the earlier one", x.space(0, 2, 2) * 10 + x.space(0, 2, 4), -10);
+        check.due("space 1 waits", x.space(0, 1, 2), start + 37);
+        x.tick(1);
+        check.due("then space 1 again", x.space(0, 1, 2), -1);
     }
 
     /** The first one that is lost may have the number 0: DONE of side 1. */

@@ -17,6 +17,7 @@ public final class EndEdgesTest {
         quietLimits();
         quietOfSideZeroAlone();
         quietBeginsAnew();
+        quietWithProbesDue();
         noQuietWhenIdle();
         sixteenDatagrams();
         manyPackets();
@@ -376,6 +377,23 @@ public final class EndEdgesTest {
         z.tick(390);
         check.due("what does not open does not count", z.look(0, 0) == 5 || z.book(0, 0) < spoiled + 400 ? 1 : 0, 1);
         check.due("ended", z.look(0, 1), 40000);
+    }
+
+    /** A probe time and the quiet limit in the same tick: probes are due, but it is ENDED, and none is sent. */
+    private static void quietWithProbesDue() {
+        int patience = (int) Pairs.still().space(0, 2, 8);
+        for (int more = -1; more <= 1; more++) {
+            TransportPair x = Pairs.still(Pairs.with(0, 1, 7 * patience + more, 1, 1, 0));
+            Pairs.tape(x, 1, 1);
+            x.raw(0);
+            x.tick(1);
+            x.tick(7 * patience - 1);
+            int sent = x.line(0, 1);
+            x.tick(1);
+            check.due("ENDED, or not yet", x.look(0, 0), more > 0 ? 2 : 5);
+            check.due("probes due", x.look(0, 8), more == 0 ? 2 : 0);
+            check.due("sent", x.line(0, 1) - sent, more > 0 ? 2 : 0);
+        }
     }
 
     /** "side 1's with its first packet that opens". */

@@ -21,6 +21,9 @@ public final class FillEdgesTest {
         turnOfStreams();
         lostBytes();
         lostTwice();
+        oneByteLost();
+        framesWithoutTheEnd();
+        stopOfNoGrant();
         theEnd();
         dataBlocked();
         streamBlocked();
@@ -245,6 +248,13 @@ public final class FillEdgesTest {
             byte[] head = row[1] == 0 ? frame(11, 0, 200) : frame(15, 0, row[1], 200 - row[1]);
             same("the others", forge.inside(x, 0, 1), head, others);
         }
+        for (int room = 3; room <= 4; room++) {
+            TransportPair x = leaving(room);
+            Pairs.write(x, 0, 0, Pairs.row(1, 0));
+            x.tick(1);
+            check.due("one byte in a room of " + room, forge.inside(x, 0, 0).length, ROOM - room + (room < 4 ? 0 : 4));
+            check.due("how many datagrams", x.line(0, 0), room < 4 ? 2 : 1);
+        }
         for (int size = 62; size <= 65; size++) {
             TransportPair x = leaving(67);
             Pairs.write(x, 0, 0, Pairs.row(size, 0));
@@ -365,6 +375,15 @@ public final class FillEdgesTest {
             }
             same("turn " + i, sent(x, forge), want);
         }
+        int[] set = {0, 8, 64, 0, 9, 64};
+        TransportPair y = Pairs.still(Pairs.with(set));
+        for (int i = 0; i < 64; i++) {
+            y.open(1, false);
+        }
+        Pairs.write(y, 1, 255, Pairs.row(1, 0));
+        Pairs.write(y, 1, 3, Pairs.row(1, 1));
+        y.tick(1);
+        same("from 0 at first", new Forge(set).inside(y, 1, 0), frame(10, 3, 1), Pairs.row(1, 1), frame(10, 255, 1), Pairs.row(1, 0));
     }
 
     /** "its first LOST bytes, those directly behind one another; or else bytes not yet sent". */
@@ -404,6 +423,58 @@ public final class FillEdgesTest {
         check.due("all of them are LOST again", x.stream(0, 0, 5), 35);
         same("from the first one on", sent(x, forge), frame(10, 0, 20), Arrays.copyOf(row, 20), frame(14, 0, 30, 10),
             Arrays.copyOfRange(row, 30, 40), frame(14, 0, 60, 5), Pairs.row(3, 9), Pairs.row(2, 5));
+    }
+
+    /** One byte alone may be lost, and is sent again. */
+    private static void oneByteLost() throws Exception {
+        Forge forge = new Forge();
+        TransportPair x = Pairs.still();
+        x.open(0, true);
+        Pairs.write(x, 0, 0, Pairs.row(1, 7));
+        sent(x, forge);
+        Pairs.write(x, 0, 0, Pairs.row(1, 8));
+        sent(x, forge);
+        acknowledged(x, 0, 0);
+        check.due("one is HERE, one LOST", x.stream(0, 0, 6) * 10 + x.stream(0, 0, 5), 11);
+        same("sent again", sent(x, forge), frame(10, 0, 1), Pairs.row(1, 7));
+        check.due("none is LOST", x.stream(0, 0, 5), 0);
+    }
+
+    /** "STREAM: its bytes, and its end, are HERE": a frame without the end tells nothing of it. */
+    private static void framesWithoutTheEnd() throws Exception {
+        Forge forge = new Forge();
+        for (int finished = 0; finished < 2; finished++) {
+            TransportPair x = Pairs.still();
+            x.open(0, true);
+            Pairs.write(x, 0, 0, Pairs.row(3, 0));
+            sent(x, forge);
+            long number = x.space(0, 2, 0) - 1;
+            if (finished == 1) {
+                x.finish(0, 0);
+                check.due("NEW", x.stream(0, 0, 7), 1);
+                sent(x, forge);
+            }
+            Pairs.rawNow(x, 1, frame(2, number, 0, 0, 0));
+            check.due("all bytes are HERE", x.stream(0, 0, 6), 3);
+            check.due("the end is as it was", x.stream(0, 0, 7), finished == 0 ? 0 : 2);
+            check.due("so is the state", x.stream(0, 0, 0), finished);
+            if (finished == 1) {
+                acknowledged(x, 0, 0);
+                check.due("HERE, ARRIVED", x.stream(0, 0, 7) * 10 + x.stream(0, 0, 0), 42);
+            }
+        }
+    }
+
+    /** A STOP that is lost does not tell a GRANT, not even of 0. */
+    private static void stopOfNoGrant() throws Exception {
+        Forge forge = new Forge(0, 5, 0);
+        TransportPair x = Pairs.still(Pairs.with(0, 5, 0));
+        x.open(0, true);
+        x.stop(0, 0, 3);
+        same("STOP", sent(x, forge), frame(5, 0, 3));
+        Pairs.clear(x);
+        x.tick((int) (x.space(0, 2, 3) - x.book(0, 0)));
+        same("STOP again", forge.inside(x, 0, 0), frame(5, 0, 3));
     }
 
     /** "LOST perhaps more than once": by a probe, and with both packets that had them. */

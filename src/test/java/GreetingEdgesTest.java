@@ -368,7 +368,8 @@ public final class GreetingEdgesTest {
     private static void names() throws Exception {
         Forge forge = new Forge();
         byte[][] names = {forge.name0, forge.name1, forge.firstName, Arrays.copyOf(forge.name0, 7), Arrays.copyOf(forge.name0, 9),
-            Arrays.copyOf(forge.name1, 7), Arrays.copyOf(forge.name1, 9), Keys.NONE, new byte[8], new byte[20], new byte[21]};
+            Arrays.copyOf(forge.name1, 7), Arrays.copyOf(forge.name1, 9), Forge.spoiled(forge.name0, 0, 1), Forge.spoiled(forge.name1, 0, 1),
+            Forge.spoiled(forge.firstName, 0, 1), Forge.spoiled(forge.name0, 7, 8), Forge.spoiled(forge.name1, 7, 8), Keys.NONE, new byte[8], new byte[20], new byte[21]};
         for (byte[] name : names) {
             byte[] hello = Keys.message(1, Keys.join(Pairs.randomOf(0), parameter(15, name)));
             boolean right = name == forge.name0;

@@ -253,6 +253,10 @@ public final class HeadEdgesTest {
         check.due("the other way round", y.space(1, 0, 7), 2);
         Forge.comes(y, 0, forge.named(0, 0, Forge.spoiled(forge.name1, 7, 8), forge.name0, 1, 7, 1200, PING));
         check.due("a name that is neither", y.space(1, 0, 7), 2);
+        Forge.comes(y, 0, forge.named(0, 0, Forge.spoiled(forge.name1, 0, 1), forge.name0, 1, 7, 1200, PING));
+        check.due("another first byte of the own one", y.space(1, 0, 7), 2);
+        Forge.comes(y, 0, forge.named(0, 0, Forge.spoiled(forge.firstName, 0, 1), forge.name0, 1, 7, 1200, PING));
+        check.due("another first byte of the first name", y.space(1, 0, 7), 2);
         Forge.comes(y, 0, forge.named(1, 0, forge.firstName, forge.name0, 1, 0, 1200, PING));
         check.due("in space 1 not the first name", y.look(1, 3), 0);
         Forge.comes(y, 0, forge.named(1, 0, forge.name1, Arrays.copyOf(forge.name0, 7), 1, 0, 1200, PING));
@@ -447,8 +451,15 @@ public final class HeadEdgesTest {
 
     /** "or if it does not open": no byte of it may be another one. */
     private static void alteredAnywhere() {
+        altered(3);
+        altered(50);
+    }
+
+    private static void altered(int raw) {
         TransportPair x = Pairs.still();
-        Pairs.tape(x, 1, 1, 1);
+        byte[] bytes = new byte[raw];
+        bytes[0] = 1;
+        Pairs.tape(x, bytes);
         x.raw(0);
         x.tick(1);
         int size = x.at(0, 0, -1);

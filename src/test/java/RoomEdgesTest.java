@@ -8,6 +8,8 @@ public final class RoomEdgesTest {
 
     public static void main(String[] args) throws Exception {
         asManyRangesAsFit();
+        sizesOfGaps();
+        roomOfAnAck();
         roomOfResponse();
         roomOfRaw();
         paddedAcknowledgement();
@@ -88,9 +90,73 @@ public final class RoomEdgesTest {
             int size = Math.max(left - 4, 0);
             byte[] others = Forge.crypto(size, Arrays.copyOfRange(forge.done0, size, 36));
             same("in the next datagram", forge.insideLong(x, 0, 1, 0, 1), others);
+            if (size > 0) {
+                lostFromAPlaceOn(x, forge, others);
+            }
         }
         for (int i = 0; i < 9; i++) {
             check.isTrue("met " + i + " bytes left", met[i]);
+        }
+    }
+
+    /** The first packet of space 1 has come, the second is lost: its bytes of CRYPTO go again, and no others. */
+    private static void lostFromAPlaceOn(TransportPair x, Forge forge, byte[] crypto) throws Exception {
+        Pairs.clear(x);
+        byte[] row = forge.named(1, 1, forge.name0, forge.name1, 3, 63 * WIDE + 1, 1200, Forge.frame(2, 0, 0, 0, 0));
+        while (x.line(1, 0) == 0 || x.at(1, 0, -1) < 1200) {
+            Pairs.clear(x);
+            x.tick(100);
+        }
+        Forge.comes(x, 1, row);
+        check.due("the first one has come", x.space(0, 1, 1), 0);
+        Pairs.clear(x);
+        x.tick(Math.max((int) x.space(0, 1, 3) - x.book(0, 0), 1));
+        byte[] got = forge.insideLong(x, 0, 0, 0, 1);
+        same("the bytes from there on", Arrays.copyOfRange(got, got.length - crypto.length, got.length), crypto);
+    }
+
+    /** "as many of these as fit", by the sizes of their gaps: 63 in one byte, 64 in two. */
+    private static void sizesOfGaps() throws Exception {
+        Forge forge = new Forge();
+        long[] first = numbers(0, 0, 63);
+        int used = 26 + 2 + ack(first, 1154).length + 16;
+        int room = 1200 - used - 25 - 4 - 16;
+        check.due("room", room, 532);
+        for (int gap = 62; gap <= 65; gap++) {
+            long[] middle = new long[64];
+            for (int i = 1; i < 64; i++) {
+                middle[i] = middle[i - 1] + (i <= 6 ? gap + 2 : WIDE);
+            }
+            TransportPair x = open(forge, first, middle);
+            Pairs.clear(x);
+            x.tick(1);
+            byte[] ack1 = ack(middle, room);
+            check.due("so many fit", ack1.length, 525 + 6);
+            same("gaps of " + gap, forge.insideLong(x, 0, 0, used, 1), ack1);
+        }
+    }
+
+    /** An ACK that is due goes as soon as it fits, with one range at least. */
+    private static void roomOfAnAck() throws Exception {
+        Forge forge = new Forge();
+        for (int room = 2; room <= 8; room++) {
+            int bytes = 454 - room;
+            int far = bytes / 9;
+            while ((bytes - 9 * far) % 2 != 0) {
+                far--;
+            }
+            TransportPair x = open(forge, numbers(0, 0, 63), numbers((bytes - 9 * far) / 2, 0, far));
+            for (int n = 0; n <= 2; n += 2) {
+                Forge.comes(x, 1, forge.shortPacket(1, 3, n, Arrays.copyOf(PING, 1200 - 9 - 4 - 16)));
+            }
+            check.due("pending", x.space(0, 2, 7), 2);
+            Pairs.clear(x);
+            x.tick(1);
+            int ahead = 44 + 12 + 9 * 63 + 43 + 12 + bytes + 39;
+            byte[] all = Keys.bytes(2, 2, 1, 1, 0, 0, 0);
+            byte[] one = Keys.bytes(2, 2, 1, 0, 0);
+            check.due("datagrams", x.line(0, 0), room < 5 ? 2 : 1);
+            same("ACK in a room of " + room, room < 5 ? forge.inside(x, 0, 1) : forge.inside(x, 0, 0, ahead), room == 5 || room == 6 ? one : all);
         }
     }
 

@@ -402,6 +402,21 @@ public final class StreamEdgesTest {
         check.due("one of ONE way", x.streams(1, 10), 1);
         right("an earlier one again", x, frame(21, 4, 0));
         check.due("four still", x.streams(1, 9), 4);
+        TransportPair y = Pairs.still(Pairs.with(0, 5, 105, 0, 6, 106, 0, 7, 107, 1, 5, 205, 1, 6, 206, 1, 7, 207));
+        y.open(0, true);
+        y.open(0, false);
+        y.open(1, true);
+        y.open(1, false);
+        right("each is there on both sides", y, frame(21, 0, 0), frame(21, 2, 0));
+        check.due("and there", error(y, 1, frame(21, 1, 0), frame(21, 3, 0)), 0);
+        long[][] limits = {{206, 205, 207, -1}, {105, 106, -1, 107}};
+        long[][] grants = {{105, 106, -1, 107}, {206, 205, 207, -1}};
+        for (int side = 0; side < 2; side++) {
+            for (int id = 0; id < 4; id++) {
+                check.due("LIMIT of " + id + " on side " + side, y.stream(side, id, 3), limits[side][id]);
+                check.due("GRANT of " + id + " on side " + side, y.stream(side, id, 13), grants[side][id]);
+            }
+        }
     }
 
     /** "STATE, if it opens on this side and is not there (also if a is above 255), or if this side has no part". */
@@ -429,6 +444,14 @@ public final class StreamEdgesTest {
             } else {
                 wrong("kind " + kind + " of 3, which sends", x, STATE, frame(kind, 3), rest);
                 right("kind " + kind + " of 2, which gets", Pairs.still(), frame(kind, 2), rest);
+            }
+            for (int count = 2; count <= 7; count++) {
+                TransportPair z = Pairs.still();
+                for (int i = 0; i < count; i++) {
+                    z.open(1, true);
+                }
+                right("the last one opened", z, frame(kind, 4 * count - 3), rest);
+                wrong("the next one", z, STATE, frame(kind, 4 * count + 1), rest);
             }
             TransportPair y = Pairs.still();
             check.due("side 0: kind " + kind + " of 0", error(y, 1, frame(kind, 0), rest), STATE);
