@@ -24,6 +24,7 @@ public final class BookEdgesTest {
         longSilenceFromTheFirstNumber();
         silenceBehindTheFirstSample();
         lossTimesOfTwoSpaces();
+        noTimesInADiscardedSpace();
         backoffIsAtMostTen();
         anxious();
         spaceTwoAheadOfConfirmed();
@@ -546,9 +547,8 @@ public final class BookEdgesTest {
         }
     }
 
-    /** "losses of the space with the earliest (the least such space) are looked for". */
-    private static void lossTimesOfTwoSpaces() throws Exception {
-        Forge forge = new Forge();
+    /** Side 0 has sent three packets in each of the spaces 1 and 2, in three ticks. */
+    private static TransportPair threeInTwoSpaces(Forge forge) throws Exception {
         TransportPair x = unsampled(forge, false);
         for (int i = 1; i <= 3; i++) {
             Pairs.tape(x, 1, 1);
@@ -556,6 +556,32 @@ public final class BookEdgesTest {
             x.tick(1);
             Forge.comes(x, 1, forge.packet(1, 1, i, 1200, Keys.bytes(1)));
         }
+        return x;
+    }
+
+    /** "DISCARDING a space: .. it has no times". */
+    private static void noTimesInADiscardedSpace() throws Exception {
+        Forge forge = new Forge();
+        TransportPair x = threeInTwoSpaces(forge);
+        x.tick(32);
+        comesLast(x, forge, 0, ack(2, 0, 0));
+        Forge.comes(x, 1, forge.packet(1, 1, 4, 1200, ack(2, 0, 0)));
+        check.isTrue("LOSS TIME, PROBE TIME", x.space(0, 1, 2) > 0 && x.space(0, 1, 3) > 0);
+        int inFlight = x.book(0, 1);
+        comesLast(x, forge, 1, Keys.bytes(30));
+        check.due("discarded", x.space(0, 1, 9), 1);
+        check.due("no LOSS TIME", x.space(0, 1, 2), -1);
+        check.due("no PROBE TIME", x.space(0, 1, 3), -1);
+        check.due("what was counted there is not in flight", inFlight - x.book(0, 1), 25 + 2 + 5 + 39 + 16);
+        check.due("GREATEST ACKNOWLEDGED stays", x.space(0, 1, 1) * 10 + x.space(0, 1, 0), 24);
+        x.tick(2);
+        check.due("the other space goes on: one is lost, one is out", x.space(0, 2, 2) * 10 + x.space(0, 2, 4), (x.book(0, 0) + 1) * 10 + 1);
+    }
+
+    /** "losses of the space with the earliest (the least such space) are looked for". */
+    private static void lossTimesOfTwoSpaces() throws Exception {
+        Forge forge = new Forge();
+        TransportPair x = threeInTwoSpaces(forge);
         int start = x.book(0, 0) - 2;
         check.due("three in each space", x.space(0, 1, 4) * 10 + x.space(0, 2, 4), 33);
         x.tick(32);
