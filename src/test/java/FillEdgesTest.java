@@ -19,6 +19,7 @@ public final class FillEdgesTest {
         bothLimits();
         orderOfFrames();
         turnOfStreams();
+        numbersOfTwoBytes();
         lostBytes();
         lostTwice();
         oneByteLost();
@@ -384,6 +385,30 @@ public final class FillEdgesTest {
         Pairs.write(y, 1, 3, Pairs.row(1, 1));
         y.tick(1);
         same("from 0 at first", new Forge(set).inside(y, 1, 0), frame(10, 3, 1), Pairs.row(1, 1), frame(10, 255, 1), Pairs.row(1, 0));
+    }
+
+    /** "Its number is cut by GREATEST ACKNOWLEDGED of the space, but to 2 bytes at least (so it grows back to itself ..)". */
+    private static void numbersOfTwoBytes() throws Exception {
+        Forge forge = new Forge();
+        for (int told = 0; told < 2; told++) {
+            TransportPair x = Pairs.still();
+            x.open(0, true);
+            for (int i = 0; i < 300; i++) {
+                Pairs.write(x, 0, 0, Pairs.row(1, i));
+                byte[] got = sent(x, forge);
+                check.due("byte " + i, got[got.length - 1], Pairs.row(1, i)[0]);
+                boolean comes = told == 1 || i > 297;
+                if (comes) {
+                    Pairs.pass(x, 0);
+                    check.due("it opens there", x.stream(1, 0, 11), i + 1);
+                }
+                if (told == 1) {
+                    acknowledged(x, 0, 0);
+                }
+            }
+            check.due("sent", x.space(0, 2, 0), 301);
+            check.due("GREATEST ACKNOWLEDGED", x.space(0, 2, 1), told == 1 ? 300 : -1);
+        }
     }
 
     /** "its first LOST bytes, those directly behind one another; or else bytes not yet sent". */
