@@ -59,7 +59,8 @@ public final class EndEdgesTest {
             TransportPair x = Pairs.still();
             if (code < 0 || code > 9999) {
                 check.refused("close with " + code, x, ARGUMENT, () -> x.close(0, code) ? 1 : 0);
-                check.refused("in no state for it", Pairs.ready(), ARGUMENT, () -> Pairs.ready().close(0, code) ? 1 : 0);
+                TransportPair idle = Pairs.ready();
+                check.refused("ahead of the state", idle, ARGUMENT, () -> idle.close(0, code) ? 1 : 0);
                 continue;
             }
             check.isTrue("close with " + code, x.close(0, code));
@@ -439,12 +440,15 @@ public final class EndEdgesTest {
         x.tick(1);
         check.due("the others in the next", x.line(0, 0), 16 + (20000 - sent + 1160) / 1166);
         check.due("all", x.stream(0, 0, 2), 20000);
-        for (int size = 15 * 1000; size <= 17 * 1000; size += 1000) {
-            TransportPair y = Pairs.still(Pairs.with(1, 6, 65536));
-            y.open(0, true);
-            Pairs.write(y, 0, 0, Pairs.row(9000, 0));
+        TransportPair y = Pairs.still();
+        y.open(0, true);
+        int[][] rows = {{1167 + 1165, 2}, {2 * 1165, 2}, {2 * 1165 + 1, 3}};
+        for (int[] row : rows) {
+            Pairs.clear(y);
+            Pairs.write(y, 0, 0, Pairs.row(row[0], 0));
             y.tick(1);
-            check.due("until one would have no packet", y.line(0, 0), 8);
+            check.due("until one would have no packet", y.line(0, 0), row[1]);
+            check.due("all is sent", y.stream(0, 0, 2), y.stream(0, 0, 1));
         }
     }
 
