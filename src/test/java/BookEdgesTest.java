@@ -14,6 +14,7 @@ public final class BookEdgesTest {
         leastIsTheLesserOne();
         firstSampleOfNothing();
         acknowledgedIsSent();
+        nothingNew();
         lostByNumber();
         lostByTime();
         lossTimeOfTheEarliest();
@@ -27,6 +28,7 @@ public final class BookEdgesTest {
         noTimesInADiscardedSpace();
         backoffIsAtMostTen();
         anxious();
+        anxiousWithBytesOut();
         spaceTwoAheadOfConfirmed();
         leastSpaceFirst();
         discarded();
@@ -304,6 +306,38 @@ public final class BookEdgesTest {
         TransportPair y = Pairs.still();
         told(y, ack(4611686018427387903L, 0, 0));
         check.due("the most", y.look(0, 1), 10);
+    }
+
+    /** "NEW are those out that it has. If there are some: ..": otherwise BACKOFF stays, and nothing is told again. */
+    private static void nothingNew() {
+        TransportPair x = slow();
+        x.open(0, true);
+        Pairs.write(x, 0, 0, Pairs.row(64, 0));
+        x.tick(1);
+        long lost = x.space(0, 2, 0) - 1;
+        ping(x, 2);
+        ping(x, 2);
+        long greatest = ping(x, 2);
+        told(x, ack(greatest, 0, 0));
+        check.due("by its number", greatest - lost, 3);
+        check.due("LOST", x.stream(0, 0, 5), 64);
+        x.tick(1);
+        Pairs.clear(x);
+        check.due("OUT again", x.stream(0, 0, 5), 0);
+        told(x, ack(greatest, 0, 0));
+        check.due("not LOST again by what tells nothing new", x.stream(0, 0, 5), 0);
+        x.tick((int) x.space(0, 2, 3) - x.book(0, 0));
+        Pairs.clear(x);
+        int[] before = {x.book(0, 2), x.book(0, 5), x.book(0, 6), x.book(0, 7)};
+        long out = x.space(0, 2, 5);
+        check.due("BACKOFF", x.book(0, 9), 1);
+        told(x, ack(greatest, 0, 0));
+        check.due("BACKOFF stays", x.book(0, 9), 1);
+        check.due("those out stay out", x.space(0, 2, 5), out);
+        check.due("WINDOW", x.book(0, 2), before[0]);
+        check.due("no sample", x.book(0, 5) + x.book(0, 6) + x.book(0, 7), before[1] + before[2] + before[3]);
+        told(x, ack(x.space(0, 2, 0) - 1, 0, 0));
+        check.due("with a new one it is 0", x.book(0, 9), 0);
     }
 
     /** "lost, if its number is at most that - 3". */
@@ -697,6 +731,24 @@ public final class BookEdgesTest {
         check.due("ACKs in both spaces", x.space(0, 1, 0) * 10 + x.space(0, 0, 9), 11);
         check.due("the first space that is not discarded", x.space(0, 1, 3), sentAt + x.space(0, 1, 8));
         check.due("not space 0", x.space(0, 0, 3), -1);
+    }
+
+    /** "While the book is ANXIOUS and no eliciting one is out in any space": one of space 2 counts, too. */
+    private static void anxiousWithBytesOut() throws Exception {
+        Forge forge = new Forge();
+        TransportPair x = unsampled(forge, false);
+        x.open(0, true);
+        Pairs.write(x, 0, 0, Pairs.row(5, 0));
+        x.tick(1);
+        int sentAt = x.book(0, 0);
+        check.due("one is out in each space", x.space(0, 1, 5) * 10 + x.space(0, 2, 5), 11);
+        Forge.comes(x, 1, forge.packet(1, 1, 1, 1200, ack(0, 0, 0)));
+        check.due("in space 2 alone", x.space(0, 1, 5) * 10 + x.space(0, 2, 5), 1);
+        check.due("no PROBE TIME in space 1", x.space(0, 1, 3), -1);
+        check.due("nor in space 2, which is not confirmed", x.space(0, 2, 3), -1);
+        comesLast(x, forge, 0, ack(0, 0, 0));
+        check.due("none is out", x.space(0, 2, 5), 0);
+        check.due("then space 1 has one", x.space(0, 1, 3), sentAt + x.space(0, 1, 8));
     }
 
     /** "Space 2 has none before it is confirmed." */

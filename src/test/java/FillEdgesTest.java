@@ -23,10 +23,12 @@ public final class FillEdgesTest {
         lostBytes();
         lostTwice();
         oneByteLost();
+        allBytesLost();
         framesWithoutTheEnd();
         stopOfNoGrant();
         theEnd();
         dataBlocked();
+        dataBlockedBefore();
         streamBlocked();
         streamsBlocked();
         streamsBlockedAtOnce();
@@ -465,6 +467,22 @@ public final class FillEdgesTest {
         check.due("none is LOST", x.stream(0, 0, 5), 0);
     }
 
+    /** "its first LOST bytes, those directly behind one another": up to the last that was written, however many there are. */
+    private static void allBytesLost() throws Exception {
+        Forge forge = new Forge();
+        for (int size : new int[] {31, 32, 33, 63, 64, 65, 127, 128, 129, 256, 512, 1024}) {
+            TransportPair x = Pairs.still();
+            x.open(0, true);
+            Pairs.write(x, 0, 0, Pairs.row(size, 1));
+            byte[] first = sent(x, forge);
+            Pairs.clear(x);
+            x.tick((int) (x.space(0, 2, 3) - x.book(0, 0)));
+            same(size + " bytes again", forge.inside(x, 0, 0), first);
+            Pairs.pass(x, 0);
+            check.due("all are there", x.stream(1, 0, 10), size);
+        }
+    }
+
     /** "STREAM: its bytes, and its end, are HERE": a frame without the end tells nothing of it. */
     private static void framesWithoutTheEnd() throws Exception {
         Forge forge = new Forge();
@@ -582,6 +600,27 @@ public final class FillEdgesTest {
         same("arrived: not again", sent(x, forge));
         x.reset(0, 0, 1);
         same("what is reset is not blocked", sent(x, forge), frame(4, 0, 1, 10));
+    }
+
+    /** ".. not again with the same limit (but if it was lost)": one with a limit before is lost, that of now is not. */
+    private static void dataBlockedBefore() throws Exception {
+        int[] set = {1, 4, 10};
+        Forge forge = new Forge(set);
+        TransportPair x = Pairs.still(Pairs.with(set));
+        x.open(0, true);
+        Pairs.write(x, 0, 0, Pairs.row(30, 0));
+        same("blocked", sent(x, forge), frame(10, 0, 10), Pairs.row(10, 0), frame(20, 10));
+        Pairs.rawNow(x, 1, frame(16, 20));
+        byte[] got = sent(x, forge);
+        byte[] want = Keys.join(frame(14, 0, 10, 10), Pairs.row(10, 70), frame(20, 20));
+        same("blocked by the next limit", Arrays.copyOfRange(got, got.length - want.length, got.length), want);
+        acknowledged(x, 0, 0);
+        check.due("what went ahead is LOST", x.stream(0, 0, 5), 10);
+        Pairs.clear(x);
+        got = sent(x, forge);
+        want = Keys.join(frame(10, 0, 10), Pairs.row(10, 0));
+        same("its bytes alone go again", Arrays.copyOfRange(got, got.length - want.length, got.length), want);
+        check.isTrue("behind an ACK at most", got.length == want.length || got.length == want.length + 5);
     }
 
     /** "STREAM DATA BLOCKED, if it has, and its SENT is its LIMIT". */

@@ -641,6 +641,7 @@ public final class StreamEdgesTest {
             right("STOP again", z, frame(5, 1, 7));
             check.due("its code stays", z.stream(1, 1, 4), state > 2 ? 4 : 6);
         }
+        bytesBehindAReset();
         TransportPair x = Pairs.still();
         right("a gap", x, end(0, 2, 1));
         check.due("SIZED", x.stream(1, 0, 8), 1);
@@ -661,6 +662,18 @@ public final class StreamEdgesTest {
         right("the end of nothing", z, end(0, 0, 0));
         check.due("READ at once", z.stream(1, 0, 8), 3);
         check.due("SIZE 0", z.stream(1, 0, 12), 0);
+    }
+
+    /** "In the states 0 and 1 bytes that were not there come in": not in the state 4. */
+    private static void bytesBehindAReset() {
+        TransportPair x = Pairs.still();
+        right("RESET", x, frame(4, 0, 9, 10));
+        check.due("RESET, SIZE", x.stream(1, 0, 8) * 100 + x.stream(1, 0, 12), 410);
+        right("bytes up to its size, and the end", x, bytes(0, 0, 4), end(0, 4, 6));
+        check.due("none came in", x.stream(1, 0, 10), 0);
+        check.due("RESET still", x.stream(1, 0, 8), 4);
+        check.due("HIGHEST", x.stream(1, 0, 11), 10);
+        check.due("read", x.read(1, 0, 10), -2);
     }
 
     /** "LIMIT is at least b"; "the limit of all data is at least a"; "that limit is at least a". */
